@@ -63,7 +63,7 @@ public final class LitNextDoor {
         return taped;
     }
 
-    public int house(int n) {
+    public int house(int n) throws IllegalArgumentException {
         if (n < 0 || n > taped) {
             throw new IllegalArgumentException("not so many bytes");
         }
@@ -87,7 +87,7 @@ public final class LitNextDoor {
         return what == 1 ? faultPlace : NONE;
     }
 
-    public int pane(int i, int what) {
+    public int pane(int i, int what) throws NoSuchElementException, IllegalArgumentException {
         if (i < 0 || i >= house.paneCount) {
             throw new NoSuchElementException("no such pane");
         }
@@ -95,18 +95,18 @@ public final class LitNextDoor {
         return house.panes[i * House.PANE + what];
     }
 
-    public int kind(int kind, int what) {
+    public int kind(int kind, int what) throws NoSuchElementException, IllegalArgumentException {
         checkKind(kind);
         checkWhat(what, 0, 1);
         return house.kinds[kind * House.KIND + what];
     }
 
-    public int next(int room) {
+    public int next(int room) throws NoSuchElementException {
         checkRoom(room);
         return house.next[room];
     }
 
-    public int hated(int room) {
+    public int hated(int room) throws NoSuchElementException {
         checkRoom(room);
         return house.hates[room];
     }
@@ -123,7 +123,7 @@ public final class LitNextDoor {
 
     // ---- lamps
 
-    public int hang(int room, int kind, int hours) {
+    public int hang(int room, int kind, int hours) throws NoSuchElementException, IllegalArgumentException {
         checkRoom(room);
         if (kind != NONE) {
             checkKind(kind);
@@ -136,7 +136,7 @@ public final class LitNextDoor {
         return had;
     }
 
-    public int of(int room, int what) {
+    public int of(int room, int what) throws NoSuchElementException, IllegalArgumentException {
         checkRoom(room);
         checkWhat(what, 0, 2);
         if (what == 0) {
@@ -145,20 +145,20 @@ public final class LitNextDoor {
         return what == 1 ? lamps.hours[room] : house.burns[room];
     }
 
-    public int light(int room, int hour) {
+    public int light(int room, int hour) throws NoSuchElementException, IllegalArgumentException {
         checkRoom(room);
         checkHour(hour);
         house.shineInto(sums, lamps.kinds, lamps.burning(hour));
         return sums[room];
     }
 
-    public int by(int room, int hour) {
+    public int by(int room, int hour) throws NoSuchElementException, IllegalArgumentException {
         checkRoom(room);
         checkHour(hour);
         return house.next[room] & lamps.burning(hour);
     }
 
-    public int dark(int hour) {
+    public int dark(int hour) throws IllegalArgumentException {
         checkHour(hour);
         return darkRooms(hour, lamps.burning(hour));
     }
@@ -173,13 +173,13 @@ public final class LitNextDoor {
         return NONE;
     }
 
-    public int out(int room, int hour) {
+    public int out(int room, int hour) throws NoSuchElementException, IllegalArgumentException {
         checkRoom(room);
         checkHour(hour);
         return darkenedBy(1 << room, hour);
     }
 
-    public int spare(int hour) {
+    public int spare(int hour) throws IllegalArgumentException {
         checkHour(hour);
         int burning = lamps.burning(hour);
         int set = 0;
@@ -192,7 +192,7 @@ public final class LitNextDoor {
         return set;
     }
 
-    public int angry(int hour) {
+    public int angry(int hour) throws IllegalArgumentException {
         checkHour(hour);
         int burning = lamps.burning(hour);
         int set = 0;
@@ -212,7 +212,7 @@ public final class LitNextDoor {
         return sum;
     }
 
-    public boolean lights(int set, int other) {
+    public boolean lights(int set, int other) throws IllegalArgumentException {
         checkSet(set);
         checkSet(other);
         return (other & ~house.litBy(set)) == 0;
@@ -220,7 +220,7 @@ public final class LitNextDoor {
 
     // ---- sets
 
-    public int best(int what) {
+    public int best(int what) throws IllegalArgumentException {
         checkWhat(what, 0, 3);
         int all = house.allRooms();
         if (what == 3) {
@@ -243,7 +243,7 @@ public final class LitNextDoor {
         return Integer.bitCount(fewest) - Integer.bitCount(lone);
     }
 
-    public int bright(int kind, int hour) {
+    public int bright(int kind, int hour) throws NoSuchElementException, IllegalArgumentException {
         checkKind(kind);
         checkHour(hour);
         return kindled.fewest(house, kind, hour);
@@ -280,19 +280,19 @@ public final class LitNextDoor {
         return set;
     }
 
-    public int barred(int room) {
+    public int barred(int room) throws NoSuchElementException {
         checkRoom(room);
         int fewest = fewestOf(house.allRooms() & ~(1 << room));
         return fewest == NONE ? NONE : Integer.bitCount(fewest);
     }
 
-    public int day(int kind) {
+    public int day(int kind) throws NoSuchElementException {
         checkKind(kind);
-        return kindled.lampsOfDay(house, kind) == NONE
-            ? NONE : kindled.lampsOfDay * house.oilOf(kind);
+        int many = kindled.lampsOfDay(house, kind);
+        return many == NONE ? NONE : many * house.oilOf(kind);
     }
 
-    public int mixed(int hour, int what) {
+    public int mixed(int hour, int what) throws IllegalArgumentException {
         checkHour(hour);
         if (house.rooms > MIXED_ROOMS) {
             throw new IllegalArgumentException("more than 8 rooms");
@@ -307,7 +307,7 @@ public final class LitNextDoor {
         return what == NONE ? mixture.bestOil : mixture.bestKinds[what];
     }
 
-    public int grid(int a, int b) {
+    public int grid(int a, int b) throws IllegalArgumentException {
         if (a < 1 || b < 1 || a > ROOMS || b > ROOMS || a * b > ROOMS) {
             throw new IllegalArgumentException("no such grid");
         }
@@ -322,7 +322,7 @@ public final class LitNextDoor {
         return cover.fewest(all, 0);
     }
 
-    public int hole(int i, int what) {
+    public int hole(int i, int what) throws NoSuchElementException, IllegalArgumentException {
         if (i < 0 || i >= house.holeCount) {
             throw new NoSuchElementException("no such hole");
         }
@@ -350,13 +350,13 @@ public final class LitNextDoor {
 
     // ---- carried, owed
 
-    public int walk(int one, int other) {
+    public int walk(int one, int other) throws NoSuchElementException {
         checkRoom(one);
         checkRoom(other);
         return house.walks[one * ROOMS + other];
     }
 
-    public int carry(int n, int from, int to, int what) {
+    public int carry(int n, int from, int to, int what) throws IllegalArgumentException {
         if (n < 1 || n > 2) {
             throw new IllegalArgumentException("one lamp or two");
         }
@@ -373,12 +373,12 @@ public final class LitNextDoor {
         return carrier.placeOf(what % n, from + what / n);
     }
 
-    public int cost(int set) {
+    public int cost(int set) throws IllegalArgumentException {
         checkSet(set);
         return house.dear * Integer.bitCount(set) - tenants.savingOf(house, set);
     }
 
-    public boolean owed(int room) {
+    public boolean owed(int room) throws NoSuchElementException {
         checkRoom(room);
         if (house.rooms > OWED_ROOMS) {
             upperNumber = 0;
@@ -401,7 +401,8 @@ public final class LitNextDoor {
         return lowerNumber;
     }
 
-    public int sooner(int tray) {
+    public int sooner(int tray)
+        throws NoSuchElementException, IllegalStateException, IndexOutOfBoundsException, IllegalArgumentException {
         checkTrayThere(tray);
         if (trays.sizes[tray] < house.rooms) {
             throw new IndexOutOfBoundsException("fewer numbers than rooms");
@@ -420,7 +421,7 @@ public final class LitNextDoor {
 
     // ---- rounds, rules, nights
 
-    public int round(int room, int what) {
+    public int round(int room, int what) throws NoSuchElementException, IllegalArgumentException {
         checkRoom(room);
         if (house.rooms > ROUND_ROOMS) {
             throw new IllegalArgumentException("more than 12 rooms");
@@ -438,7 +439,7 @@ public final class LitNextDoor {
         return what <= steps ? rounds.path[what] : NONE;
     }
 
-    public int rule(int n, boolean ring, int p, int bits) {
+    public int rule(int n, boolean ring, int p, int bits) throws IllegalArgumentException {
         checkRow(n, ring);
         if (p < 1 || p > LONGEST_RULE || bits < 0 || bits >= 1 << p) {
             throw new IllegalArgumentException("no such rule");
@@ -447,7 +448,7 @@ public final class LitNextDoor {
         return unlit == 0 ? NONE : Long.bitCount((unlit & -unlit) - 1);
     }
 
-    public int look(int n, boolean ring, int what) {
+    public int look(int n, boolean ring, int what) throws IllegalArgumentException {
         checkRow(n, ring);
         checkWhat(what, 0, 2);
         int fewest = n + 1;
@@ -469,15 +470,15 @@ public final class LitNextDoor {
         return what == 1 ? bestP : bestBits;
     }
 
-    public int night(int seed, int fail, int what) {
+    public int night(int seed, int fail, int what) throws IllegalArgumentException {
         if (fail < 0 || fail > 100) {
             throw new IllegalArgumentException("no such fail");
         }
         checkWhat(what, 0, 2);
         int x = seed;
-        int darkRooms = 0;
-        int darkHours = 0;
-        int outs = 0;
+        int roomsDark = 0;
+        int hoursDark = 0;
+        int lampsOut = 0;
         for (int hour = 0; hour < HOURS; hour++) {
             int burning = lamps.burning(hour);
             int left = burning;
@@ -486,23 +487,23 @@ public final class LitNextDoor {
                     x = 1103515245 * x + 12345;
                     if ((x >>> 16) % 100 < fail) {
                         left &= ~(1 << room);
-                        outs++;
+                        lampsOut++;
                     }
                 }
             }
             int set = darkRooms(hour, left);
-            darkRooms += Integer.bitCount(set);
-            darkHours += set != 0 ? 1 : 0;
+            roomsDark += Integer.bitCount(set);
+            hoursDark += set != 0 ? 1 : 0;
         }
         if (what == 0) {
-            return darkRooms;
+            return roomsDark;
         }
-        return what == 1 ? darkHours : outs;
+        return what == 1 ? hoursDark : lampsOut;
     }
 
     // ---- trays, images
 
-    public void tray(int tray, int sort, int many) {
+    public void tray(int tray, int sort, int many) throws NoSuchElementException, IllegalArgumentException {
         checkTray(tray);
         if (sort < 0 || sort > 3 || many < 0 || many > Trays.NUMBERS) {
             throw new IllegalArgumentException("no such row");
@@ -510,7 +511,8 @@ public final class LitNextDoor {
         trays.lay(tray, sort, many);
     }
 
-    public long write(int tray, int place, long v) {
+    public long write(int tray, int place, long v)
+        throws NoSuchElementException, IllegalStateException, IndexOutOfBoundsException {
         checkTrayThere(tray);
         if (place < 0 || place >= trays.sizes[tray]) {
             throw new IndexOutOfBoundsException("no such place");
@@ -518,7 +520,8 @@ public final class LitNextDoor {
         return trays.put(tray, place, v);
     }
 
-    public int pour(int tray) {
+    public int pour(int tray)
+        throws NoSuchElementException, IllegalStateException, IndexOutOfBoundsException, IllegalArgumentException {
         checkTrayThere(tray);
         int size = trays.sizes[tray];
         if (size % 2 != 0) {
@@ -539,13 +542,13 @@ public final class LitNextDoor {
         return size / 2;
     }
 
-    public void image(int i) {
+    public void image(int i) throws NoSuchElementException {
         checkImage(i);
         imageHouses[i] = house;
         imageLamps[i].copyFrom(lamps);
     }
 
-    public void restore(int i) {
+    public void restore(int i) throws NoSuchElementException, IllegalStateException {
         checkImage(i);
         House kept = imageHouses[i];
         if (kept == null) {
@@ -714,7 +717,7 @@ public final class LitNextDoor {
         return a;
     }
 
-    /** What a text tells and what follows from its panes. Nothing of it changes once it is read, so images may share it. */
+    /** What a text tells and what follows from its panes; as nothing of it changes once it is read, images share it. */
     private static final class House {
         static final int PANE = 4;
         static final int KIND = 2;
@@ -879,130 +882,51 @@ public final class LitNextDoor {
             return set;
         }
 
-        /** The bounds of each room's light by all its wants of the hour: can they be met together? */
-        boolean boundsAt(int hour, int[] least, int[] most) {
-            Arrays.fill(least, 0);
-            Arrays.fill(most, UNBOUNDED);
-            boolean can = true;
-            for (int i = 0; i < wantCount; i++) {
-                if (wantedAt(i, hour)) {
-                    int room = wants[i * WANT];
-                    least[room] = Math.max(least[room], wants[i * WANT + 1]);
-                    most[room] = Math.min(most[room], wants[i * WANT + 2]);
-                    can = can && least[room] <= most[room];
-                }
-            }
-            return can;
-        }
-
-        /** The light that a lamp of a kind in each room gives to each room: row by row, a row as wide as told. */
-        void shineOf(int kind, int[] shine, int first, int width) {
+        /** The light that a lamp of a kind in each room gives to each room, row by row. */
+        void shineOf(int kind, int[] shine, int first) {
             for (int i = 0; i < paneCount; i++) {
                 int from = panes[i * PANE];
                 int to = panes[i * PANE + 1];
                 int light = brightOf(kind) * panes[i * PANE + 2] / 100;
-                shine[first + from * width + to] += light;
+                shine[first + from * ROOMS + to] += light;
                 if (panes[i * PANE + 3] == 1) {
-                    shine[first + to * width + from] += light;
+                    shine[first + to * ROOMS + from] += light;
                 }
             }
         }
     }
 
-    /** The tokens of a text, one at a time. */
-    private static final class Tokens {
-        static final int END = 0;
-        static final int WORD = 1;
-        static final int NUMBER = 2;
-        static final int SIGN = 3;
-        static final int BAD = 4;
+    /** Reads a house from a text, token by token up to the first fault. */
+    private static final class Reader {
+        // what the token at hand is
+        private static final int END = 0;
+        private static final int WORD = 1;
+        private static final int NUMBER = 2;
+        private static final int SIGN = 3;
+        private static final int BAD = 4;
+        private static final int DIGITS = 5;
 
-        final byte[] text;
-        final int length;
-        int sort = END;
-        int place = 0;
-        int end = 0;
-        int value = 0;
+        int fault = 0;
+        int faultPlace = NONE;
+        private final byte[] text;
+        private final int length;
+        private int sort = END;
+        private int place = 0;
+        private int end = 0;
+        private int value = 0;
+        private final House house = new House();
+        // the numbers of the line that is read
+        private final int[] told = new int[5];
+        private int toldCount = 0;
 
-        Tokens(byte[] text, int length) {
+        Reader(byte[] text, int length) {
             this.text = text;
             this.length = Math.min(length, text.length);
         }
 
-        void advance() {
-            int at = end;
-            while (at < length && (text[at] == 10 || text[at] == 32)) {
-                at++;
-            }
-            place = at;
-            end = at;
-            if (at >= length) {
-                sort = END;
-            } else if (isLetter(text[at])) {
-                sort = WORD;
-                passWord();
-            } else if (isDigit(text[at])) {
-                passNumber();
-                sort = end - place <= 5 ? NUMBER : BAD;
-            } else {
-                sort = text[at] == ';' ? SIGN : BAD;
-                end = at + 1;
-            }
-        }
-
-        private void passWord() {
-            while (end < length && isLetter(text[end])) {
-                end++;
-            }
-        }
-
-        private void passNumber() {
-            value = 0;
-            while (end < length && isDigit(text[end])) {
-                // Beyond five digits it is no number, whatever its value.
-                value = end - place < 5 ? value * 10 + (text[end] - '0') : 0;
-                end++;
-            }
-        }
-
-        private static boolean isLetter(byte b) {
-            return b >= 'a' && b <= 'z';
-        }
-
-        private static boolean isDigit(byte b) {
-            return b >= '0' && b <= '9';
-        }
-
-        boolean isWord(String word) {
-            if (sort != WORD || end - place != word.length()) {
-                return false;
-            }
-            for (int i = 0; i < word.length(); i++) {
-                if (text[place + i] != word.charAt(i)) {
-                    return false;
-                }
-            }
-            return true;
-        }
-    }
-
-    /** Reads a house from a text, up to the first fault. */
-    private static final class Reader {
-        final Tokens tokens;
-        final House house = new House();
-        // the numbers of the line that is read
-        final int[] told = new int[5];
-        int toldCount = 0;
-        int fault = 0;
-        int faultPlace = NONE;
-
-        Reader(byte[] text, int length) {
-            tokens = new Tokens(text, length);
-        }
-
         House readHouse() {
-            tokens.advance();
-            for (int i = 0; i < TAPE && fault == 0 && tokens.sort != Tokens.END; i++) {
+            advance();
+            for (int i = 0; i < TAPE && fault == 0 && sort != END; i++) {
                 toldCount = 0;
                 if (readLine() && passSign()) {
                     house.lines++;
@@ -1016,28 +940,28 @@ public final class LitNextDoor {
         }
 
         private boolean readLine() {
-            if (tokens.isWord("rooms")) {
+            if (isWord("rooms")) {
                 return readRooms();
             }
-            if (tokens.isWord("pane")) {
+            if (isWord("pane")) {
                 return readPane();
             }
-            if (tokens.isWord("lamp")) {
+            if (isWord("lamp")) {
                 return readLamp();
             }
-            if (tokens.isWord("want")) {
+            if (isWord("want")) {
                 return readWant();
             }
-            if (tokens.isWord("hole")) {
+            if (isWord("hole")) {
                 return readHole();
             }
-            if (tokens.isWord("burns")) {
+            if (isWord("burns")) {
                 return readBurns();
             }
-            if (tokens.isWord("hates")) {
+            if (isWord("hates")) {
                 return readHates();
             }
-            return tokens.isWord("dear") ? readDear() : refuse(2);
+            return isWord("dear") ? readDear() : refuse(2);
         }
 
         private boolean readRooms() {
@@ -1146,21 +1070,21 @@ public final class LitNextDoor {
         }
 
         private boolean otherRoom() {
-            if (tokens.sort == Tokens.NUMBER && tokens.value == told[0]) {
+            if (sort == NUMBER && value == told[0]) {
                 return refuse(3);
             }
             return room();
         }
 
         private boolean number(int low, int high) {
-            if (tokens.sort != Tokens.NUMBER) {
+            if (sort != NUMBER) {
                 return refuse(2);
             }
-            if (tokens.value < low || tokens.value > high) {
+            if (value < low || value > high) {
                 return refuse(3);
             }
-            tell(tokens.value);
-            tokens.advance();
+            tell(value);
+            advance();
             return true;
         }
 
@@ -1169,25 +1093,25 @@ public final class LitNextDoor {
         }
 
         private boolean passIf(String word) {
-            if (!tokens.isWord(word)) {
+            if (!isWord(word)) {
                 return false;
             }
-            tokens.advance();
+            advance();
             return true;
         }
 
         private boolean passSign() {
-            if (tokens.sort != Tokens.SIGN) {
+            if (sort != SIGN) {
                 return refuse(2);
             }
-            tokens.advance();
+            advance();
             return true;
         }
 
         /** The fault is of the token at hand; what is no token at all is that first. */
         private boolean refuse(int kind) {
-            fault = tokens.sort == Tokens.BAD ? 1 : kind;
-            faultPlace = tokens.place;
+            fault = sort == BAD ? 1 : kind;
+            faultPlace = place;
             return false;
         }
 
@@ -1200,6 +1124,60 @@ public final class LitNextDoor {
 
         private void keep(int[] row, int first, int many) {
             System.arraycopy(told, 0, row, first, many);
+        }
+
+        private void advance() {
+            while (end < length && (text[end] == 10 || text[end] == 32)) {
+                end++;
+            }
+            place = end;
+            if (end >= length) {
+                sort = END;
+            } else if (isLetter(text[end])) {
+                sort = WORD;
+                passWord();
+            } else if (isDigit(text[end])) {
+                passDigits();
+                sort = end - place <= DIGITS ? NUMBER : BAD;
+            } else {
+                sort = text[end] == ';' ? SIGN : BAD;
+                end++;
+            }
+        }
+
+        private void passWord() {
+            while (end < length && isLetter(text[end])) {
+                end++;
+            }
+        }
+
+        private void passDigits() {
+            value = 0;
+            while (end < length && isDigit(text[end])) {
+                // With more digits it is no number, so that its value may be anything.
+                value = end - place < DIGITS ? value * 10 + (text[end] - '0') : 0;
+                end++;
+            }
+        }
+
+        private static boolean isLetter(byte b) {
+            return b >= 'a' && b <= 'z';
+        }
+
+        private static boolean isDigit(byte b) {
+            return b >= '0' && b <= '9';
+        }
+
+        private boolean isWord(String word) {
+            if (sort != WORD || end - place != word.length()) {
+                return false;
+            }
+            for (int i = 0; i < word.length(); i++) {
+                if (text[place + i] != word.charAt(i)) {
+                    return false;
+                }
+            }
+            return true;
         }
     }
 
@@ -1384,39 +1362,96 @@ public final class LitNextDoor {
         }
     }
 
-    /** The fewest lamps of one kind by which all rooms are right in an hour. */
-    private static final class Kindled {
-        int lampsOfDay = NONE;
+    /** The light of rooms in an hour against what they want and bear then; a row of light has a place for each room. */
+    private static final class Balance {
         private int rooms = 0;
-        private int[] lit = new int[ROOMS];
         private final int[] least = new int[ROOMS];
         private final int[] most = new int[ROOMS];
         private final int[] sums = new int[ROOMS];
+
+        /** All is dark at first: may all wants of the hour be met together? */
+        boolean begin(House house, int hour) {
+            rooms = house.rooms;
+            Arrays.fill(least, 0);
+            Arrays.fill(most, UNBOUNDED);
+            Arrays.fill(sums, 0);
+            boolean may = true;
+            for (int i = 0; i < house.wantCount; i++) {
+                if (house.wantedAt(i, hour)) {
+                    int room = house.wants[i * House.WANT];
+                    least[room] = Math.max(least[room], house.wants[i * House.WANT + 1]);
+                    most[room] = Math.min(most[room], house.wants[i * House.WANT + 2]);
+                    may = may && least[room] <= most[room];
+                }
+            }
+            return may;
+        }
+
+        int lacking() {
+            int set = 0;
+            for (int room = 0; room < rooms; room++) {
+                if (sums[room] < least[room]) {
+                    set |= 1 << room;
+                }
+            }
+            return set;
+        }
+
+        /** Would the rooms of a set have enough with a row of light more? */
+        boolean enoughWith(int[] rows, int first, int set) {
+            for (int room = 0; room < rooms && set >> room != 0; room++) {
+                if ((set >> room & 1) != 0 && sums[room] + rows[first + room] < least[room]) {
+                    return false;
+                }
+            }
+            return true;
+        }
+
+        boolean isBearable() {
+            for (int room = 0; room < rooms; room++) {
+                if (sums[room] > most[room]) {
+                    return false;
+                }
+            }
+            return true;
+        }
+
+        void add(int[] rows, int first, int times) {
+            for (int room = 0; room < rooms; room++) {
+                sums[room] += times * rows[first + room];
+            }
+        }
+    }
+
+    /** The fewest lamps of one kind by which all rooms are right in an hour. */
+    private static final class Kindled {
+        private House house = null;
+        private final Balance balance = new Balance();
         // what a lamp in a room gives to each room, and what those in the first i rooms give together
         private final int[] shine = new int[ROOMS * ROOMS];
         private final int[] together = new int[(ROOMS + 1) * ROOMS];
+        // how many rooms one of the first i rooms lights at most
         private final int[] widest = new int[ROOMS + 1];
         private final int[] wantsOfHour = new int[HOURS];
         private final int[] lampsOfHour = new int[HOURS];
         private int best = NONE;
-        private int fewestLamps = 0;
+        private int bestLamps = 0;
 
-        int lampsOfDay(House house, int kind) {
-            lampsOfDay = 0;
+        int lampsOfDay(House inside, int kind) {
+            int sum = 0;
             for (int hour = 0; hour < HOURS; hour++) {
-                wantsOfHour[hour] = house.wantsAt(hour);
+                wantsOfHour[hour] = inside.wantsAt(hour);
                 lampsOfHour[hour] = lampsAsBefore(hour);
                 if (lampsOfHour[hour] == NONE) {
-                    int set = fewest(house, kind, hour);
+                    int set = fewest(inside, kind, hour);
                     if (set == NONE) {
-                        lampsOfDay = NONE;
                         return NONE;
                     }
                     lampsOfHour[hour] = Integer.bitCount(set);
                 }
-                lampsOfDay += lampsOfHour[hour];
+                sum += lampsOfHour[hour];
             }
-            return lampsOfDay;
+            return sum;
         }
 
         /** Hours with the same wants take as many lamps; none, if there was no such hour. */
@@ -1429,94 +1464,57 @@ public final class LitNextDoor {
             return NONE;
         }
 
-        int fewest(House house, int kind, int hour) {
+        int fewest(House inside, int kind, int hour) {
+            house = inside;
             best = NONE;
-            fewestLamps = house.rooms + 1;
-            if (house.boundsAt(hour, least, most)) {
-                lay(house, kind);
-                int lack = lacking();
-                if (canBeMet(lack)) {
-                    seek(this, rooms, 0, lack);
+            bestLamps = house.rooms + 1;
+            if (balance.begin(house, hour)) {
+                lay(kind);
+                int lack = balance.lacking();
+                if (balance.enoughWith(together, house.rooms * ROOMS, lack)) {
+                    seek(this, house.rooms, 0, lack);
                 }
             }
             return best;
         }
 
-        private void lay(House house, int kind) {
-            rooms = house.rooms;
-            lit = house.lit;
-            Arrays.fill(sums, 0);
+        private void lay(int kind) {
             Arrays.fill(shine, 0);
-            house.shineOf(kind, shine, 0, ROOMS);
-            for (int i = 0; i < rooms; i++) {
-                widest[i + 1] = Math.max(widest[i], Integer.bitCount(lit[i]));
-                for (int room = 0; room < rooms; room++) {
+            house.shineOf(kind, shine, 0);
+            for (int i = 0; i < house.rooms; i++) {
+                widest[i + 1] = Math.max(widest[i], Integer.bitCount(house.lit[i]));
+                for (int room = 0; room < house.rooms; room++) {
                     together[(i + 1) * ROOMS + room] = together[i * ROOMS + room] + shine[i * ROOMS + room];
                 }
             }
         }
 
-        private int lacking() {
-            int set = 0;
-            for (int room = 0; room < rooms; room++) {
-                if (sums[room] < least[room]) {
-                    set |= 1 << room;
-                }
-            }
-            return set;
-        }
-
-        private boolean canBeMet(int lack) {
-            return enough(lack, rooms);
-        }
-
-        /** Do the rooms get enough, if the first i rooms that are still open get lamps, too? */
-        private boolean enough(int set, int i) {
-            for (int room = 0; room < rooms; room++) {
-                if ((set >> room & 1) != 0 && sums[room] + together[i * ROOMS + room] < least[room]) {
-                    return false;
-                }
-            }
-            return true;
-        }
-
-        private boolean bearable(int from) {
-            for (int room = 0; room < rooms; room++) {
-                if (sums[room] + shine[from * ROOMS + room] > most[room]) {
-                    return false;
-                }
-            }
-            return true;
-        }
-
-        private void add(int from, int times) {
-            for (int room = 0; room < rooms; room++) {
-                sums[room] += times * shine[from * ROOMS + room];
-            }
-        }
-
-        // A lamp that lights no room that lacks light is never among the fewest: without it all stay right.
+        // Sets come in their order as bits, so that only a smaller one takes the place of an earlier one. A lamp
+        // that lights no room that lacks light is never among the fewest: without it all would be right, too.
         private static void seek(Kindled k, int i, int set, int lack) {
-            int spared = k.fewestLamps - 1 - Integer.bitCount(set);
+            int spared = k.bestLamps - 1 - Integer.bitCount(set);
             if (spared < 0) {
                 return;
             }
             if (lack == 0) {
                 k.best = set;
-                k.fewestLamps = Integer.bitCount(set);
+                k.bestLamps = Integer.bitCount(set);
                 return;
             }
             if (i <= 0 || Integer.bitCount(lack) > spared * k.widest[i]) {
                 return;
             }
             int room = i - 1;
-            if (k.enough(lack & k.lit[room], room)) {
+            int served = lack & k.house.lit[room];
+            if (k.balance.enoughWith(k.together, room * ROOMS, served)) {
                 seek(k, room, set, lack);
             }
-            if ((lack & k.lit[room]) != 0 && k.bearable(room)) {
-                k.add(room, 1);
-                seek(k, room, set | 1 << room, k.lacking());
-                k.add(room, -1);
+            if (served != 0) {
+                k.balance.add(k.shine, room * ROOMS, 1);
+                if (k.balance.isBearable()) {
+                    seek(k, room, set | 1 << room, k.balance.lacking());
+                }
+                k.balance.add(k.shine, room * ROOMS, -1);
             }
         }
     }
@@ -1526,96 +1524,55 @@ public final class LitNextDoor {
         int bestOil = 0;
         int bestLamps = 0;
         final int[] bestKinds = new int[MIXED_ROOMS];
-        private int rooms = 0;
-        private int kinds = 0;
-        private int leastOil = 0;
         private House house = null;
+        private final Balance balance = new Balance();
+        private int leastOil = 0;
         private final int[] chosen = new int[MIXED_ROOMS];
-        private final int[] least = new int[ROOMS];
-        private final int[] most = new int[ROOMS];
-        private final int[] sums = new int[MIXED_ROOMS];
         // what a lamp of a kind in a room gives to each room
-        private final int[] shine = new int[KINDS * MIXED_ROOMS * MIXED_ROOMS];
-        // what rooms from the i-th on can give to each room at most
-        private final int[] together = new int[(MIXED_ROOMS + 1) * MIXED_ROOMS];
+        private final int[] shine = new int[KINDS * MIXED_ROOMS * ROOMS];
+        // what lamps from the i-th room on give to each room at most
+        private final int[] together = new int[(MIXED_ROOMS + 1) * ROOMS];
 
         boolean find(House inside, int hour) {
             house = inside;
             bestOil = UNBOUNDED;
             bestLamps = 0;
-            if (!house.boundsAt(hour, least, most)) {
+            if (house.rooms > MIXED_ROOMS || !balance.begin(house, hour)) {
                 return false;
             }
             lay();
-            int lack = lacking();
-            if (enough(lack, 0)) {
+            int lack = balance.lacking();
+            if (balance.enoughWith(together, 0, lack)) {
                 seek(this, 0, 0, 0, lack);
             }
             return bestOil < UNBOUNDED;
         }
 
         private void lay() {
-            rooms = house.rooms;
-            kinds = house.kindCount;
-            leastOil = kinds > 0 ? house.oilOf(0) : 0;
-            Arrays.fill(sums, 0);
+            leastOil = UNBOUNDED;
             Arrays.fill(shine, 0);
             Arrays.fill(together, 0);
-            for (int kind = 0; kind < kinds; kind++) {
+            for (int kind = 0; kind < house.kindCount; kind++) {
                 leastOil = Math.min(leastOil, house.oilOf(kind));
-                house.shineOf(kind, shine, kind * MIXED_ROOMS * MIXED_ROOMS, MIXED_ROOMS);
+                house.shineOf(kind, shine, rowOf(kind, 0));
             }
-            for (int from = rooms - 1; from >= 0; from--) {
-                for (int room = 0; room < rooms; room++) {
-                    together[from * MIXED_ROOMS + room] = together[(from + 1) * MIXED_ROOMS + room] + brightest(from, room);
+            for (int from = house.rooms - 1; from >= 0; from--) {
+                for (int room = 0; room < house.rooms; room++) {
+                    together[from * ROOMS + room] = together[(from + 1) * ROOMS + room] + brightest(from, room);
                 }
             }
+        }
+
+        private static int rowOf(int kind, int from) {
+            return (kind * MIXED_ROOMS + from) * ROOMS;
         }
 
         private int brightest(int from, int room) {
             int light = 0;
-            for (int kind = 0; kind < kinds; kind++) {
-                light = Math.max(light, shineAt(kind, from, room));
+            for (int kind = 0; kind < house.kindCount; kind++) {
+                light = Math.max(light, shine[rowOf(kind, from) + room]);
             }
             return light;
-        }
-
-        private int shineAt(int kind, int from, int room) {
-            return shine[(kind * MIXED_ROOMS + from) * MIXED_ROOMS + room];
-        }
-
-        private int lacking() {
-            int set = 0;
-            for (int room = 0; room < rooms; room++) {
-                if (sums[room] < least[room]) {
-                    set |= 1 << room;
-                }
-            }
-            return set;
-        }
-
-        private boolean enough(int set, int from) {
-            for (int room = 0; room < rooms; room++) {
-                if ((set >> room & 1) != 0 && sums[room] + together[from * MIXED_ROOMS + room] < least[room]) {
-                    return false;
-                }
-            }
-            return true;
-        }
-
-        private boolean bearable() {
-            for (int room = 0; room < rooms; room++) {
-                if (sums[room] > most[room]) {
-                    return false;
-                }
-            }
-            return true;
-        }
-
-        private void add(int kind, int from, int times) {
-            for (int room = 0; room < rooms; room++) {
-                sums[room] += times * shineAt(kind, from, room);
-            }
         }
 
         private boolean isBetter(int oil, int lamps) {
@@ -1625,12 +1582,13 @@ public final class LitNextDoor {
         private void keep(int decided, int oil, int lamps) {
             bestOil = oil;
             bestLamps = lamps;
-            for (int room = 0; room < rooms; room++) {
+            for (int room = 0; room < house.rooms; room++) {
                 bestKinds[room] = room < decided ? chosen[room] : NONE;
             }
         }
 
-        // Sets come in their order, so that only a better one takes the place of an earlier one.
+        // Choices come in their order, so that only a better one takes the place of an earlier one. A lamp that
+        // lights no room that lacks light is never in the best one: without it there is a lamp fewer.
         private static void seek(Mixture m, int room, int oil, int lamps, int lack) {
             if (lack == 0) {
                 if (m.isBetter(oil, lamps)) {
@@ -1638,24 +1596,21 @@ public final class LitNextDoor {
                 }
                 return;
             }
-            if (room >= m.rooms || !m.isBetter(oil + m.leastOil, lamps + 1)) {
+            if (room >= m.house.rooms || !m.isBetter(oil + m.leastOil, lamps + 1)) {
                 return;
             }
             int served = lack & m.house.lit[room];
             m.chosen[room] = NONE;
-            if (m.enough(served, room + 1)) {
+            if (m.balance.enoughWith(m.together, (room + 1) * ROOMS, served)) {
                 seek(m, room + 1, oil, lamps, lack);
             }
-            if (served == 0) {
-                return;
-            }
-            for (int kind = 0; kind < m.kinds; kind++) {
-                m.add(kind, room, 1);
+            for (int kind = 0; kind < m.house.kindCount && served != 0; kind++) {
+                m.balance.add(m.shine, rowOf(kind, room), 1);
                 m.chosen[room] = kind;
-                if (m.bearable() && m.enough(served, room + 1)) {
-                    seek(m, room + 1, oil + m.house.oilOf(kind), lamps + 1, m.lacking());
+                if (m.balance.isBearable() && m.balance.enoughWith(m.together, (room + 1) * ROOMS, served)) {
+                    seek(m, room + 1, oil + m.house.oilOf(kind), lamps + 1, m.balance.lacking());
                 }
-                m.add(kind, room, -1);
+                m.balance.add(m.shine, rowOf(kind, room), -1);
             }
         }
     }
@@ -1860,8 +1815,8 @@ public final class LitNextDoor {
 
         // There is a way round a tree of all rooms with 22 steps, so none needs more.
         final int[] path = new int[2 * ROUND_ROOMS];
-        // A state is the rooms that are lit so far and the room where one stands; by state: the place in
-        // the queue of the one ahead of it and 1, 0 as long as it hasn't been come to.
+        // A state is the rooms that are lit so far and the room where one stands. By state: 1 and the place in the
+        // queue of the state from which it was come to; 0 as long as it hasn't been.
         private final int[] ahead = new int[STATES];
         private final int[] queue = new int[STATES];
         private int queued = 0;
@@ -1874,7 +1829,7 @@ public final class LitNextDoor {
             int goal = stateOf(house.allRooms(), start);
             queued = 0;
             enter(stateOf(house.lit[start], start), 0);
-            for (int i = 0; i < queued && ahead[goal] == 0; i++) {
+            for (int i = 0; i < STATES && i < queued && ahead[goal] == 0; i++) {
                 int lit = queue[i] / ROUND_ROOMS;
                 int room = queue[i] % ROUND_ROOMS;
                 int beside = house.next[room] | house.lit[room];
@@ -1911,21 +1866,25 @@ public final class LitNextDoor {
             }
         }
 
+        /** Writes down the way to the goal: how many steps it has. */
         private int tracePath(int goal) {
             int steps = 0;
             int state = goal;
-            for (int i = 0; i < path.length && state != queue[0]; i++) {
-                state = queue[ahead[state] - 1];
+            while (steps < path.length - 1 && state != queue[0]) {
+                state = before(state);
                 steps++;
             }
             state = goal;
             for (int i = steps; i >= 0; i--) {
-                if (i < path.length) {
-                    path[i] = state % ROUND_ROOMS;
-                }
-                state = queue[ahead[state] - 1];
+                path[i] = state % ROUND_ROOMS;
+                state = before(state);
             }
             return steps;
+        }
+
+        private int before(int state) {
+            int i = ahead[state] - 1;
+            return i >= 0 ? queue[i] : state;
         }
 
         private void forget() {
