@@ -998,8 +998,8 @@ public final class LitNextDoor {
         }
 
         private boolean readWant() {
-            if (!mayBegin(house.wantCount < WANTS) || !pass("want") || !room()
-                || !pass("least") || !number(0, 9999)) {
+            if (!mayBegin(house.wantCount < WANTS) || !pass("want")
+                || !number(0, house.rooms - 1) || !pass("least") || !number(0, 9999)) {
                 return false;
             }
             if (!passIf("most")) {
@@ -1030,7 +1030,7 @@ public final class LitNextDoor {
         }
 
         private boolean readBurns() {
-            if (!mayBegin(true) || !pass("burns") || !number(0, 99) || !pass("for") || !room()) {
+            if (!mayBegin(true) || !pass("burns") || !number(0, 99) || !pass("for") || !number(0, house.rooms - 1)) {
                 return false;
             }
             house.burns[told[1]] = told[0];
@@ -1038,7 +1038,8 @@ public final class LitNextDoor {
         }
 
         private boolean readHates() {
-            if (!mayBegin(true) || !pass("hates") || !room() || !otherRoom()) {
+            int last = house.rooms - 1;
+            if (!mayBegin(true) || !pass("hates") || !number(0, last) || !differs() || !number(0, last)) {
                 return false;
             }
             house.hates[told[0]] |= 1 << told[1];
@@ -1062,18 +1063,13 @@ public final class LitNextDoor {
         }
 
         private boolean passage() {
-            return room() && pass("to") && otherRoom() && pass("lets") && number(1, 100);
+            int last = house.rooms - 1;
+            return number(0, last) && pass("to") && differs() && number(0, last) && pass("lets") && number(1, 100);
         }
 
-        private boolean room() {
-            return number(0, house.rooms - 1);
-        }
-
-        private boolean otherRoom() {
-            if (sort == NUMBER && value == told[0]) {
-                return refuse(3);
-            }
-            return room();
+        /** A number that comes next must not be the first one of the line. */
+        private boolean differs() {
+            return sort != NUMBER || value != told[0] || refuse(3);
         }
 
         private boolean number(int low, int high) {
@@ -1089,7 +1085,11 @@ public final class LitNextDoor {
         }
 
         private boolean pass(String word) {
-            return passIf(word) || refuse(2);
+            if (!isWord(word)) {
+                return refuse(2);
+            }
+            advance();
+            return true;
         }
 
         private boolean passIf(String word) {
@@ -1131,41 +1131,28 @@ public final class LitNextDoor {
                 end++;
             }
             place = end;
-            if (end >= length) {
-                sort = END;
-            } else if (isLetter(text[end])) {
-                sort = WORD;
-                passWord();
-            } else if (isDigit(text[end])) {
-                passDigits();
-                sort = end - place <= DIGITS ? NUMBER : BAD;
-            } else {
-                sort = text[end] == ';' ? SIGN : BAD;
-                end++;
-            }
-        }
-
-        private void passWord() {
-            while (end < length && isLetter(text[end])) {
-                end++;
-            }
-        }
-
-        private void passDigits() {
             value = 0;
-            while (end < length && isDigit(text[end])) {
-                // With more digits it is no number, so that its value may be anything.
+            while (end < length && text[end] >= 'a' && text[end] <= 'z') {
+                sort = WORD;
+                end++;
+            }
+            if (end > place) {
+                return;
+            }
+            while (end < length && text[end] >= '0' && text[end] <= '9') {
+                // With more digits it is no number, so that its value doesn't matter.
+                sort = end - place < DIGITS ? NUMBER : BAD;
                 value = end - place < DIGITS ? value * 10 + (text[end] - '0') : 0;
                 end++;
             }
-        }
-
-        private static boolean isLetter(byte b) {
-            return b >= 'a' && b <= 'z';
-        }
-
-        private static boolean isDigit(byte b) {
-            return b >= '0' && b <= '9';
+            if (end > place) {
+                return;
+            }
+            sort = END;
+            if (end < length) {
+                sort = text[end] == ';' ? SIGN : BAD;
+                end++;
+            }
         }
 
         private boolean isWord(String word) {
@@ -1364,14 +1351,15 @@ public final class LitNextDoor {
 
     /** The light of rooms in an hour against what they want and bear then; a row of light has a place for each room. */
     private static final class Balance {
-        private int rooms = 0;
         private final int[] least = new int[ROOMS];
         private final int[] most = new int[ROOMS];
         private final int[] sums = new int[ROOMS];
+        // the rooms that have wants; the light of others doesn't matter
+        private final int[] watched = new int[ROOMS];
+        private int watchedCount = 0;
 
         /** All is dark at first: may all wants of the hour be met together? */
         boolean begin(House house, int hour) {
-            rooms = house.rooms;
             Arrays.fill(least, 0);
             Arrays.fill(most, UNBOUNDED);
             Arrays.fill(sums, 0);
@@ -1384,12 +1372,24 @@ public final class LitNextDoor {
                     may = may && least[room] <= most[room];
                 }
             }
+            watch();
             return may;
+        }
+
+        private void watch() {
+            watchedCount = 0;
+            for (int room = 0; room < ROOMS; room++) {
+                if (least[room] > 0 || most[room] < UNBOUNDED) {
+                    watched[watchedCount] = room;
+                    watchedCount++;
+                }
+            }
         }
 
         int lacking() {
             int set = 0;
-            for (int room = 0; room < rooms; room++) {
+            for (int i = 0; i < watchedCount; i++) {
+                int room = watched[i];
                 if (sums[room] < least[room]) {
                     set |= 1 << room;
                 }
@@ -1399,7 +1399,8 @@ public final class LitNextDoor {
 
         /** Would the rooms of a set have enough with a row of light more? */
         boolean enoughWith(int[] rows, int first, int set) {
-            for (int room = 0; room < rooms && set >> room != 0; room++) {
+            for (int i = 0; i < watchedCount; i++) {
+                int room = watched[i];
                 if ((set >> room & 1) != 0 && sums[room] + rows[first + room] < least[room]) {
                     return false;
                 }
@@ -1408,8 +1409,8 @@ public final class LitNextDoor {
         }
 
         boolean isBearable() {
-            for (int room = 0; room < rooms; room++) {
-                if (sums[room] > most[room]) {
+            for (int i = 0; i < watchedCount; i++) {
+                if (sums[watched[i]] > most[watched[i]]) {
                     return false;
                 }
             }
@@ -1417,8 +1418,8 @@ public final class LitNextDoor {
         }
 
         void add(int[] rows, int first, int times) {
-            for (int room = 0; room < rooms; room++) {
-                sums[room] += times * rows[first + room];
+            for (int i = 0; i < watchedCount; i++) {
+                sums[watched[i]] += times * rows[first + watched[i]];
             }
         }
     }
@@ -1619,9 +1620,12 @@ public final class LitNextDoor {
     private static final class Carrier {
         private static final int FAR = 1000000;
 
-        private int rooms = 0;
-        private int seconds = 0;
+        // the house and the call of the plan that stands
+        private House house = null;
+        private int lamps = 0;
         private int first = 0;
+        private int last = 0;
+        private int seconds = 0;
         private int leastSum = FAR;
         private final int[] ways = new int[ROOMS * ROOMS];
         // by hour, first lamp's room, second lamp's room: the least walks from there on
@@ -1629,43 +1633,52 @@ public final class LitNextDoor {
         // the same, if only the first lamp has still to be carried
         private final int[] half = new int[ROOMS * ROOMS];
 
-        int plan(House house, int n, int from, int to) {
-            rooms = house.rooms;
+        /** The least sum of walks. It is kept, as places are mostly asked for one by one. */
+        int plan(House inside, int n, int from, int to) {
+            if (house != inside || lamps != n || first != from || last != to) {
+                house = inside;
+                lamps = n;
+                first = from;
+                last = to;
+                fillHours();
+            }
+            return leastSum < FAR ? leastSum : NONE;
+        }
+
+        private void fillHours() {
             // One lamp is carried as two are of which the second stays in room 0 and gives no light.
-            seconds = n == 2 ? rooms : Math.min(rooms, 1);
-            first = from;
+            seconds = lamps == 2 ? house.rooms : Math.min(house.rooms, 1);
             for (int i = 0; i < ways.length; i++) {
                 ways[i] = house.walks[i] == NONE ? FAR : house.walks[i];
             }
             int needThen = 0;
-            for (int hour = to; hour >= from; hour--) {
+            for (int hour = last; hour >= first; hour--) {
                 int need = house.needy(hour);
-                if (hour < to && need == needThen) {
-                    // Whoever is right for the next hour as well may always put off the walk.
+                if (hour < last && need == needThen) {
+                    // Who lights what is needed in the next hour, too, may always put off the walk.
                     System.arraycopy(sums, at(hour + 1, 0, 0), sums, at(hour, 0, 0), ROOMS * ROOMS);
                 } else {
-                    fillHour(house, n, hour, need, hour == to);
+                    fillHour(hour, need);
                 }
                 needThen = need;
             }
-            leastSum = least(from);
-            return leastSum < FAR ? leastSum : NONE;
+            leastSum = least(first);
         }
 
         private static int at(int hour, int one, int other) {
             return (hour * ROOMS + one) * ROOMS + other;
         }
 
-        private void fillHour(House house, int n, int hour, int need, boolean last) {
-            if (!last) {
+        private void fillHour(int hour, int need) {
+            if (hour < last) {
                 fillHalf(hour + 1);
             }
-            for (int one = 0; one < rooms; one++) {
+            for (int one = 0; one < house.rooms; one++) {
                 for (int other = 0; other < seconds; other++) {
-                    int given = house.lit[one] | (n == 2 ? house.lit[other] : 0);
+                    int given = house.lit[one] | (lamps == 2 ? house.lit[other] : 0);
                     int sum = FAR;
                     if ((need & ~given) == 0) {
-                        sum = last ? 0 : leastBehind(one, other);
+                        sum = hour < last ? leastBehind(one, other) : 0;
                     }
                     sums[at(hour, one, other)] = sum;
                 }
@@ -1673,10 +1686,10 @@ public final class LitNextDoor {
         }
 
         private void fillHalf(int hour) {
-            for (int one = 0; one < rooms; one++) {
+            for (int one = 0; one < house.rooms; one++) {
                 for (int other = 0; other < seconds; other++) {
                     int sum = FAR;
-                    for (int to = 0; to < rooms; to++) {
+                    for (int to = 0; to < house.rooms; to++) {
                         sum = Math.min(sum, ways[one * ROOMS + to] + sums[at(hour, to, other)]);
                     }
                     half[one * ROOMS + other] = sum;
@@ -1694,7 +1707,7 @@ public final class LitNextDoor {
 
         private int least(int hour) {
             int sum = FAR;
-            for (int one = 0; one < rooms; one++) {
+            for (int one = 0; one < house.rooms; one++) {
                 for (int other = 0; other < seconds; other++) {
                     sum = Math.min(sum, sums[at(hour, one, other)]);
                 }
@@ -1713,7 +1726,7 @@ public final class LitNextDoor {
 
         /** The first places in an hour from which on, with the walk there, the sum is as told. */
         private int firstPlaces(int hour, int before, int sum) {
-            for (int one = 0; one < rooms; one++) {
+            for (int one = 0; one < house.rooms; one++) {
                 for (int other = 0; other < seconds; other++) {
                     int walk = 0;
                     if (before != NONE) {

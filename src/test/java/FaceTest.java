@@ -75,11 +75,13 @@ public final class FaceTest {
             Model.drawn(draw, rooms, draw.nextInt(2 * rooms), text);
             Check.house(x, text.toString());
         }
-        Method[] calls = LitNextDoor.class.getDeclaredMethods();
-        Arrays.sort(calls, Comparator.comparing(Method::getName));
+        List<Method> calls = new ArrayList<>(Arrays.asList(LitNextDoor.class.getDeclaredMethods()));
+        calls.removeIf(m -> !Modifier.isPublic(m.getModifiers()));
+        calls.sort(Comparator.comparing(Method::getName));
         for (int i = 0; i < 450; i++) {
-            Method call = calls[draw.nextInt(calls.length)];
-            if (Modifier.isPublic(call.getModifiers()) && (!call.getName().equals("house") || draw.nextInt(20) == 0)) {
+            Method call = calls.get(draw.nextInt(calls.size()));
+            // Most draws of house() would leave a house without rooms.
+            if (!call.getName().equals("house") || draw.nextInt(20) == 0) {
                 ask(x, call, draw);
             }
         }
