@@ -40,13 +40,10 @@ public final class LitNextDoor {
     private final Mixture mixture = new Mixture();
     private final Carrier carrier = new Carrier();
     private final Tenants tenants = new Tenants();
-    // Its rows are long, so it is made when the first round is asked for.
+    // Its rows grow fast with rooms, so it is made when a round is asked for, and anew only for more rooms.
     private Rounds rounds = null;
 
     public LitNextDoor() {
-        for (int i = 0; i < IMAGES; i++) {
-            imageLamps[i] = new Lamps();
-        }
     }
 
     // ---- the house
@@ -271,6 +268,7 @@ public final class LitNextDoor {
         if (fewest == NONE) {
             return 0;
         }
+        // With a room some of the fewest go, if one fewer does for what that room doesn't light.
         int set = 0;
         for (int room = 0; room < house.rooms; room++) {
             if (cover.suffice(all & ~house.lit[room], Integer.bitCount(fewest) - 1)) {
@@ -429,8 +427,8 @@ public final class LitNextDoor {
         if (what < NONE) {
             throw new IllegalArgumentException("no such what");
         }
-        if (rounds == null) {
-            rounds = new Rounds();
+        if (rounds == null || rounds.rooms < house.rooms) {
+            rounds = new Rounds(house.rooms);
         }
         int steps = rounds.stepsFrom(house, room);
         if (what == NONE) {
@@ -544,18 +542,24 @@ public final class LitNextDoor {
 
     public void image(int i) throws NoSuchElementException {
         checkImage(i);
+        Lamps kept = imageLamps[i];
+        if (kept == null) {
+            kept = new Lamps();
+            imageLamps[i] = kept;
+        }
+        kept.copyFrom(lamps);
         imageHouses[i] = house;
-        imageLamps[i].copyFrom(lamps);
     }
 
     public void restore(int i) throws NoSuchElementException, IllegalStateException {
         checkImage(i);
-        House kept = imageHouses[i];
-        if (kept == null) {
+        House keptHouse = imageHouses[i];
+        Lamps keptLamps = imageLamps[i];
+        if (keptHouse == null || keptLamps == null) {
             throw new IllegalStateException("no image was made");
         }
-        house = kept;
-        lamps.copyFrom(imageLamps[i]);
+        house = keptHouse;
+        lamps.copyFrom(keptLamps);
     }
 
     public int count(int what) {
@@ -1426,7 +1430,6 @@ public final class LitNextDoor {
 
     /** The fewest lamps of one kind by which all rooms are right in an hour. */
     private static final class Kindled {
-        private House house = null;
         private final Balance balance = new Balance();
         // what a lamp in a room gives to each room, and what those in the first i rooms give together
         private final int[] shine = new int[ROOMS * ROOMS];
@@ -1438,13 +1441,13 @@ public final class LitNextDoor {
         private int best = NONE;
         private int bestLamps = 0;
 
-        int lampsOfDay(House inside, int kind) {
+        int lampsOfDay(House house, int kind) {
             int sum = 0;
             for (int hour = 0; hour < HOURS; hour++) {
-                wantsOfHour[hour] = inside.wantsAt(hour);
+                wantsOfHour[hour] = house.wantsAt(hour);
                 lampsOfHour[hour] = lampsAsBefore(hour);
                 if (lampsOfHour[hour] == NONE) {
-                    int set = fewest(inside, kind, hour);
+                    int set = fewest(house, kind, hour);
                     if (set == NONE) {
                         return NONE;
                     }
@@ -1465,21 +1468,20 @@ public final class LitNextDoor {
             return NONE;
         }
 
-        int fewest(House inside, int kind, int hour) {
-            house = inside;
+        int fewest(House house, int kind, int hour) {
             best = NONE;
             bestLamps = house.rooms + 1;
             if (balance.begin(house, hour)) {
-                lay(kind);
+                lay(house, kind);
                 int lack = balance.lacking();
                 if (balance.enoughWith(together, house.rooms * ROOMS, lack)) {
-                    seek(this, house.rooms, 0, lack);
+                    seek(this, house, house.rooms, 0, lack);
                 }
             }
             return best;
         }
 
-        private void lay(int kind) {
+        private void lay(House house, int kind) {
             Arrays.fill(shine, 0);
             house.shineOf(kind, shine, 0);
             for (int i = 0; i < house.rooms; i++) {
@@ -1492,7 +1494,7 @@ public final class LitNextDoor {
 
         // Sets come in their order as bits, so that only a smaller one takes the place of an earlier one. A lamp
         // that lights no room that lacks light is never among the fewest: without it all would be right, too.
-        private static void seek(Kindled k, int i, int set, int lack) {
+        private static void seek(Kindled k, House house, int i, int set, int lack) {
             int spared = k.bestLamps - 1 - Integer.bitCount(set);
             if (spared < 0) {
                 return;
@@ -1506,14 +1508,14 @@ public final class LitNextDoor {
                 return;
             }
             int room = i - 1;
-            int served = lack & k.house.lit[room];
+            int served = lack & house.lit[room];
             if (k.balance.enoughWith(k.together, room * ROOMS, served)) {
-                seek(k, room, set, lack);
+                seek(k, house, room, set, lack);
             }
             if (served != 0) {
                 k.balance.add(k.shine, room * ROOMS, 1);
                 if (k.balance.isBearable()) {
-                    seek(k, room, set | 1 << room, k.balance.lacking());
+                    seek(k, house, room, set | 1 << room, k.balance.lacking());
                 }
                 k.balance.add(k.shine, room * ROOMS, -1);
             }
@@ -1525,7 +1527,6 @@ public final class LitNextDoor {
         int bestOil = 0;
         int bestLamps = 0;
         final int[] bestKinds = new int[MIXED_ROOMS];
-        private House house = null;
         private final Balance balance = new Balance();
         private int leastOil = 0;
         private final int[] chosen = new int[MIXED_ROOMS];
@@ -1534,22 +1535,21 @@ public final class LitNextDoor {
         // what lamps from the i-th room on give to each room at most
         private final int[] together = new int[(MIXED_ROOMS + 1) * ROOMS];
 
-        boolean find(House inside, int hour) {
-            house = inside;
+        boolean find(House house, int hour) {
             bestOil = UNBOUNDED;
             bestLamps = 0;
             if (house.rooms > MIXED_ROOMS || !balance.begin(house, hour)) {
                 return false;
             }
-            lay();
+            lay(house);
             int lack = balance.lacking();
             if (balance.enoughWith(together, 0, lack)) {
-                seek(this, 0, 0, 0, lack);
+                seek(this, house, 0, 0, 0, lack);
             }
             return bestOil < UNBOUNDED;
         }
 
-        private void lay() {
+        private void lay(House house) {
             leastOil = UNBOUNDED;
             Arrays.fill(shine, 0);
             Arrays.fill(together, 0);
@@ -1559,7 +1559,8 @@ public final class LitNextDoor {
             }
             for (int from = house.rooms - 1; from >= 0; from--) {
                 for (int room = 0; room < house.rooms; room++) {
-                    together[from * ROOMS + room] = together[(from + 1) * ROOMS + room] + brightest(from, room);
+                    int brightest = brightest(house.kindCount, from, room);
+                    together[from * ROOMS + room] = together[(from + 1) * ROOMS + room] + brightest;
                 }
             }
         }
@@ -1568,9 +1569,9 @@ public final class LitNextDoor {
             return (kind * MIXED_ROOMS + from) * ROOMS;
         }
 
-        private int brightest(int from, int room) {
+        private int brightest(int kinds, int from, int room) {
             int light = 0;
-            for (int kind = 0; kind < house.kindCount; kind++) {
+            for (int kind = 0; kind < kinds; kind++) {
                 light = Math.max(light, shine[rowOf(kind, from) + room]);
             }
             return light;
@@ -1583,33 +1584,33 @@ public final class LitNextDoor {
         private void keep(int decided, int oil, int lamps) {
             bestOil = oil;
             bestLamps = lamps;
-            for (int room = 0; room < house.rooms; room++) {
+            for (int room = 0; room < MIXED_ROOMS; room++) {
                 bestKinds[room] = room < decided ? chosen[room] : NONE;
             }
         }
 
         // Choices come in their order, so that only a better one takes the place of an earlier one. A lamp that
         // lights no room that lacks light is never in the best one: without it there is a lamp fewer.
-        private static void seek(Mixture m, int room, int oil, int lamps, int lack) {
+        private static void seek(Mixture m, House house, int room, int oil, int lamps, int lack) {
             if (lack == 0) {
                 if (m.isBetter(oil, lamps)) {
                     m.keep(room, oil, lamps);
                 }
                 return;
             }
-            if (room >= m.house.rooms || !m.isBetter(oil + m.leastOil, lamps + 1)) {
+            if (room >= house.rooms || !m.isBetter(oil + m.leastOil, lamps + 1)) {
                 return;
             }
-            int served = lack & m.house.lit[room];
+            int served = lack & house.lit[room];
             m.chosen[room] = NONE;
             if (m.balance.enoughWith(m.together, (room + 1) * ROOMS, served)) {
-                seek(m, room + 1, oil, lamps, lack);
+                seek(m, house, room + 1, oil, lamps, lack);
             }
-            for (int kind = 0; kind < m.house.kindCount && served != 0; kind++) {
+            for (int kind = 0; kind < house.kindCount && served != 0; kind++) {
                 m.balance.add(m.shine, rowOf(kind, room), 1);
                 m.chosen[room] = kind;
                 if (m.balance.isBearable() && m.balance.enoughWith(m.together, (room + 1) * ROOMS, served)) {
-                    seek(m, room + 1, oil + m.house.oilOf(kind), lamps + 1, m.balance.lacking());
+                    seek(m, house, room + 1, oil + house.oilOf(kind), lamps + 1, m.balance.lacking());
                 }
                 m.balance.add(m.shine, rowOf(kind, room), -1);
             }
@@ -1621,10 +1622,11 @@ public final class LitNextDoor {
         private static final int FAR = 1000000;
 
         // the house and the call of the plan that stands
-        private House house = null;
+        private House planned = null;
         private int lamps = 0;
         private int first = 0;
         private int last = 0;
+        private int rooms = 0;
         private int seconds = 0;
         private int leastSum = FAR;
         private final int[] ways = new int[ROOMS * ROOMS];
@@ -1634,20 +1636,21 @@ public final class LitNextDoor {
         private final int[] half = new int[ROOMS * ROOMS];
 
         /** The least sum of walks. It is kept, as places are mostly asked for one by one. */
-        int plan(House inside, int n, int from, int to) {
-            if (house != inside || lamps != n || first != from || last != to) {
-                house = inside;
+        int plan(House house, int n, int from, int to) {
+            if (planned != house || lamps != n || first != from || last != to) {
+                planned = house;
                 lamps = n;
                 first = from;
                 last = to;
-                fillHours();
+                fillHours(house);
             }
             return leastSum < FAR ? leastSum : NONE;
         }
 
-        private void fillHours() {
+        private void fillHours(House house) {
+            rooms = house.rooms;
             // One lamp is carried as two are of which the second stays in room 0 and gives no light.
-            seconds = lamps == 2 ? house.rooms : Math.min(house.rooms, 1);
+            seconds = lamps == 2 ? rooms : Math.min(rooms, 1);
             for (int i = 0; i < ways.length; i++) {
                 ways[i] = house.walks[i] == NONE ? FAR : house.walks[i];
             }
@@ -1658,7 +1661,7 @@ public final class LitNextDoor {
                     // Who lights what is needed in the next hour, too, may always put off the walk.
                     System.arraycopy(sums, at(hour + 1, 0, 0), sums, at(hour, 0, 0), ROOMS * ROOMS);
                 } else {
-                    fillHour(hour, need);
+                    fillHour(house, hour, need);
                 }
                 needThen = need;
             }
@@ -1669,11 +1672,11 @@ public final class LitNextDoor {
             return (hour * ROOMS + one) * ROOMS + other;
         }
 
-        private void fillHour(int hour, int need) {
+        private void fillHour(House house, int hour, int need) {
             if (hour < last) {
                 fillHalf(hour + 1);
             }
-            for (int one = 0; one < house.rooms; one++) {
+            for (int one = 0; one < rooms; one++) {
                 for (int other = 0; other < seconds; other++) {
                     int given = house.lit[one] | (lamps == 2 ? house.lit[other] : 0);
                     int sum = FAR;
@@ -1686,10 +1689,10 @@ public final class LitNextDoor {
         }
 
         private void fillHalf(int hour) {
-            for (int one = 0; one < house.rooms; one++) {
+            for (int one = 0; one < rooms; one++) {
                 for (int other = 0; other < seconds; other++) {
                     int sum = FAR;
-                    for (int to = 0; to < house.rooms; to++) {
+                    for (int to = 0; to < rooms; to++) {
                         sum = Math.min(sum, ways[one * ROOMS + to] + sums[at(hour, to, other)]);
                     }
                     half[one * ROOMS + other] = sum;
@@ -1707,7 +1710,7 @@ public final class LitNextDoor {
 
         private int least(int hour) {
             int sum = FAR;
-            for (int one = 0; one < house.rooms; one++) {
+            for (int one = 0; one < rooms; one++) {
                 for (int other = 0; other < seconds; other++) {
                     sum = Math.min(sum, sums[at(hour, one, other)]);
                 }
@@ -1726,7 +1729,7 @@ public final class LitNextDoor {
 
         /** The first places in an hour from which on, with the walk there, the sum is as told. */
         private int firstPlaces(int hour, int before, int sum) {
-            for (int one = 0; one < house.rooms; one++) {
+            for (int one = 0; one < rooms; one++) {
                 for (int other = 0; other < seconds; other++) {
                     int walk = 0;
                     if (before != NONE) {
@@ -1743,7 +1746,6 @@ public final class LitNextDoor {
 
     /** What tenants save together, and what each is owed of it. */
     private static final class Tenants {
-        private House house = null;
         private final int[] gives = new int[ROOMS];
         private final int[] reach = new int[ROOMS + 1];
         private int best = 0;
@@ -1752,52 +1754,51 @@ public final class LitNextDoor {
         private House saved = null;
 
         /** The most that a set of tenants saves by lamps in their rooms, against all of them being dark. */
-        int savingOf(House inside, int set) {
-            house = inside;
+        int savingOf(House house, int set) {
             best = 0;
             for (int i = 0; i < house.rooms; i++) {
                 gives[i] = (set >> i & 1) != 0 ? house.lit[i] & set : 0;
                 reach[i + 1] = reach[i] | gives[i];
             }
-            seek(this, house.rooms, 0, 0);
+            seek(this, house, house.rooms, 0, 0);
             return best;
         }
 
         // A lamp that costs as much as the rooms that it lights anew can be left out of any set.
-        private static void seek(Tenants t, int i, int lit, int burnt) {
-            int dear = t.house.dear;
+        private static void seek(Tenants t, House house, int i, int lit, int burnt) {
+            int dear = house.dear;
             t.best = Math.max(t.best, dear * Integer.bitCount(lit) - burnt);
             if (i <= 0 || dear * Integer.bitCount(lit | t.reach[i]) - burnt <= t.best) {
                 return;
             }
             int room = i - 1;
             int anew = t.gives[room] & ~lit;
-            int burns = t.house.burns[room];
+            int burns = house.burns[room];
             if (burns < dear * Integer.bitCount(anew)) {
-                seek(t, room, lit | anew, burnt + burns);
+                seek(t, house, room, lit | anew, burnt + burns);
             }
-            seek(t, room, lit, burnt);
+            seek(t, house, room, lit, burnt);
         }
 
-        private void findSavings(House inside) {
-            if (saved == inside) {
+        private void findSavings(House house) {
+            if (saved == house) {
                 return;
             }
-            for (int set = 0; set < savings.length && set <= inside.allRooms(); set++) {
-                savings[set] = savingOf(inside, set);
+            for (int set = 0; set < savings.length && set <= house.allRooms(); set++) {
+                savings[set] = savingOf(house, set);
             }
-            saved = inside;
+            saved = house;
         }
 
         /** What a tenant adds to the saving of those ahead of it, summed over all orders of tenants. */
-        long owedOverOrders(House inside, int room) {
-            findSavings(inside);
+        long owedOverOrders(House house, int room) {
+            findSavings(house);
             long sum = 0;
             int me = 1 << room;
-            for (int set = 0; set < savings.length && set <= inside.allRooms(); set++) {
+            for (int set = 0; set < savings.length && set <= house.allRooms(); set++) {
                 if ((set & me) == 0) {
                     int ahead = Integer.bitCount(set);
-                    long orders = factorial(ahead) * factorial(inside.rooms - 1 - ahead);
+                    long orders = factorial(ahead) * factorial(house.rooms - 1 - ahead);
                     sum += orders * (savings[set | me] - savings[set]);
                 }
             }
@@ -1805,11 +1806,11 @@ public final class LitNextDoor {
         }
 
         /** The least set that saves more than a tray tells to its tenants. */
-        int firstWronged(House inside, Trays trays, int tray) {
-            findSavings(inside);
-            for (int set = 1; set < savings.length && set <= inside.allRooms(); set++) {
+        int firstWronged(House house, Trays trays, int tray) {
+            findSavings(house);
+            for (int set = 1; set < savings.length && set <= house.allRooms(); set++) {
                 long told = 0;
-                for (int room = 0; room < inside.rooms; room++) {
+                for (int room = 0; room < house.rooms; room++) {
                     if ((set >> room & 1) != 0) {
                         told += trays.numberAt(tray, room);
                     }
@@ -1824,15 +1825,21 @@ public final class LitNextDoor {
 
     /** The shortest way round with one lamp by which all rooms are lit. */
     private static final class Rounds {
-        private static final int STATES = ROUND_ROOMS << ROUND_ROOMS;
-
+        final int rooms;
         // There is a way round a tree of all rooms with 22 steps, so none needs more.
         final int[] path = new int[2 * ROUND_ROOMS];
         // A state is the rooms that are lit so far and the room where one stands. By state: 1 and the place in the
         // queue of the state from which it was come to; 0 as long as it hasn't been.
-        private final int[] ahead = new int[STATES];
-        private final int[] queue = new int[STATES];
+        private final int[] ahead;
+        private final int[] queue;
         private int queued = 0;
+
+        /** For so many rooms or fewer. */
+        Rounds(int many) {
+            rooms = Math.max(1, Math.min(many, ROUND_ROOMS));
+            ahead = new int[rooms << rooms];
+            queue = new int[rooms << rooms];
+        }
 
         /** States come in the order of the first ways to them, so that the goal is come to by the first of all. */
         int stepsFrom(House house, int start) {
@@ -1842,9 +1849,9 @@ public final class LitNextDoor {
             int goal = stateOf(house.allRooms(), start);
             queued = 0;
             enter(stateOf(house.lit[start], start), 0);
-            for (int i = 0; i < STATES && i < queued && ahead[goal] == 0; i++) {
-                int lit = queue[i] / ROUND_ROOMS;
-                int room = queue[i] % ROUND_ROOMS;
+            for (int i = 0; i < queue.length && i < queued && ahead[goal] == 0; i++) {
+                int lit = queue[i] / rooms;
+                int room = queue[i] % rooms;
                 int beside = house.next[room] | house.lit[room];
                 for (int then = 0; then < house.rooms; then++) {
                     if ((beside >> then & 1) != 0) {
@@ -1867,12 +1874,12 @@ public final class LitNextDoor {
             return house.litBy(near) == house.allRooms();
         }
 
-        private static int stateOf(int lit, int room) {
-            return lit * ROUND_ROOMS + room;
+        private int stateOf(int lit, int room) {
+            return lit * rooms + room;
         }
 
         private void enter(int state, int before) {
-            if (ahead[state] == 0 && queued < STATES) {
+            if (ahead[state] == 0 && queued < queue.length) {
                 ahead[state] = before + 1;
                 queue[queued] = state;
                 queued++;
@@ -1889,7 +1896,7 @@ public final class LitNextDoor {
             }
             state = goal;
             for (int i = steps; i >= 0; i--) {
-                path[i] = state % ROUND_ROOMS;
+                path[i] = state % rooms;
                 state = before(state);
             }
             return steps;
