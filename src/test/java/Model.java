@@ -635,7 +635,7 @@ final class Model {
         return (room + 1 + draw.nextInt(rooms - 1)) % rooms;
     }
 
-    private void drawPane(Random draw, StringBuilder text) {
+    void drawPane(Random draw, StringBuilder text) {
         int from = draw.nextInt(rooms);
         int[] p = {from, otherThan(draw, from), 1 + draw.nextInt(100), draw.nextInt(2)};
         if (line(text, "pane " + p[0] + " to " + p[1] + " lets " + p[2] + (p[3] == 1 ? " both" : ""))) {
@@ -656,7 +656,7 @@ final class Model {
         }
     }
 
-    private void drawHole(Random draw, StringBuilder text) {
+    void drawHole(Random draw, StringBuilder text) {
         int from = draw.nextInt(rooms);
         int[] h = {from, otherThan(draw, from), 1 + draw.nextInt(100), draw.nextInt(5), draw.nextInt(2)};
         String told = "hole " + h[0] + " to " + h[1] + " lets " + h[2] + " costs " + h[3] + (h[4] == 1 ? " both" : "");

@@ -4,6 +4,8 @@ import java.util.Random;
 public final class ModelTest {
     private static final int[] LARGE_ROUND_ROOMS = {8, 10, 12};
 
+    private static int moves = 0;
+
     private ModelTest() {
     }
 
@@ -23,9 +25,16 @@ public final class ModelTest {
                 rounds(x, m);
             }
         }
+        for (int i = 0; i < 300; i++) {
+            onTheMove(draw);
+        }
+        for (int i = 0; i < 400; i++) {
+            wanting(draw);
+        }
         for (int i = 0; i < 60; i++) {
             large(draw, i);
         }
+        Check.due("lamps were carried often enough", moves > 300, true);
         grids();
         rules(draw);
         Check.end("ModelTest");
@@ -143,12 +152,78 @@ public final class ModelTest {
         }
         for (int n = 1; n <= 2; n++) {
             int from = draw.nextInt(24);
-            int to = from + draw.nextInt(24 - from);
-            int[] told = m.carry(n, from, to);
-            Check.due("carry sum", x.carry(n, from, to, -1), told == null ? -1 : told[0]);
-            for (int what = 0; what < n * (to - from + 1); what++) {
-                Check.due("carry place", x.carry(n, from, to, what), told == null ? -1 : told[1 + what]);
+            carriedFor(x, m, n, from, from + draw.nextInt(24 - from));
+        }
+    }
+
+    /** Whether the lamps were carried at all. */
+    private static boolean carriedFor(LitNextDoor x, Model m, int n, int from, int to) {
+        int[] told = m.carry(n, from, to);
+        Check.due("carry sum", x.carry(n, from, to, -1), told == null ? -1 : told[0]);
+        for (int what = 0; what < n * (to - from + 1); what++) {
+            Check.due("carry place", x.carry(n, from, to, what), told == null ? -1 : told[1 + what]);
+        }
+        return told != null && told[0] > 0;
+    }
+
+    /** Many panes and modest wants, so that there mostly are lamps by which all rooms are right. */
+    private static void wanting(Random draw) {
+        Model m = new Model();
+        m.rooms = 3 + draw.nextInt(6);
+        StringBuilder text = new StringBuilder("rooms " + m.rooms + ";");
+        int kinds = 1 + draw.nextInt(m.rooms > 6 ? 2 : 4);
+        for (int i = 0; i < kinds; i++) {
+            int[] kind = {20 + draw.nextInt(120), draw.nextInt(4)};
+            m.kinds.add(kind);
+            text.append("lamp bright ").append(kind[0]).append(" oil ").append(kind[1]).append(';');
+        }
+        for (int i = m.rooms + draw.nextInt(m.rooms); i > 0; i--) {
+            m.drawPane(draw, text);
+        }
+        for (int i = 1 + draw.nextInt(m.rooms); i > 0; i--) {
+            int least = 1 + draw.nextInt(40);
+            int[] want = {draw.nextInt(m.rooms), least, least + 20 + draw.nextInt(60), 0, 4 + draw.nextInt(20)};
+            m.wants.add(want);
+            text.append("want ").append(want[0]).append(" least ").append(least).append(" most ").append(want[2]);
+            text.append(" from 0 to ").append(want[4]).append(';');
+        }
+        for (int i = draw.nextInt(3); i > 0; i--) {
+            m.drawHole(draw, text);
+        }
+        m.lines = kinds + 1 + m.panes.size() + m.wants.size() + m.holes.size();
+        LitNextDoor x = Check.built(text.toString());
+        told(x, m, text.toString());
+        sets(x, m);
+        mixed(x, m, 0);
+        mixed(x, m, 7);
+        hung(x, m, draw);
+    }
+
+    /** In each hour but few rooms want light, and other ones than in the hour ahead. */
+    private static void onTheMove(Random draw) {
+        Model m = new Model();
+        m.rooms = 2 + draw.nextInt(6);
+        StringBuilder text = new StringBuilder("rooms " + m.rooms + ";");
+        for (int i = 0; i < m.rooms + draw.nextInt(m.rooms); i++) {
+            m.drawPane(draw, text);
+        }
+        int hours = 1 + draw.nextInt(8);
+        int now = draw.nextInt(2);
+        for (int i = 0; i < hours; i++) {
+            int then = now + draw.nextInt(2);
+            int[] want = {draw.nextInt(m.rooms), 1, 99999, now, then};
+            m.wants.add(want);
+            text.append("want ").append(want[0]).append(" least 1 from ").append(now).append(" to ").append(then).append(';');
+            now = then + draw.nextInt(2);
+        }
+        LitNextDoor x = Check.built(text.toString());
+        // The same object is asked for other hours in turn, so that no answer may be of an earlier call.
+        for (int n = 1; n <= 2; n++) {
+            for (int to = 0; to <= now; to += 2) {
+                moves += carriedFor(x, m, n, 0, to) ? 1 : 0;
+                moves += carriedFor(x, m, n, to / 2, to) ? 1 : 0;
             }
+            moves += carriedFor(x, m, 3 - n, 0, now) ? 1 : 0;
         }
     }
 

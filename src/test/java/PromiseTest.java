@@ -623,6 +623,10 @@ public final class PromiseTest {
         for (int i = 0; i < one.length; i++) {
             Check.due("one lamp's place", x.carry(1, 1, 5, i), one[i]);
         }
+        Check.due("one lamp to an earlier hour", x.carry(1, 1, 3, NONE), 1);
+        Check.due("one lamp from a later hour", x.carry(1, 3, 3, NONE), 0);
+        Check.due("one lamp's place there", x.carry(1, 3, 3, 0), 2);
+        Check.due("one lamp for all these hours", x.carry(1, 2, 5, NONE), 2);
         Check.due("two lamps", x.carry(2, 1, 5, NONE), 0);
         for (int i = 0; i < 10; i++) {
             Check.due("two lamps' places", x.carry(2, 1, 5, i), i % 2 == 0 ? 1 : 2);
