@@ -723,6 +723,9 @@ public final class PromiseTest {
         Check.thrown("two numbers for eleven", BOUNDS, () -> x.sooner(1));
         x.tray(1, 0, 11);
         Check.thrown("eleven rooms", ARGUMENT, () -> x.sooner(1));
+        Check.house(x, ring(10));
+        x.tray(1, 0, 10);
+        Check.due("ten rooms: 0 and 1 light each other", x.sooner(1), 3);
         LitNextDoor none = new LitNextDoor();
         none.tray(0, 0, 0);
         Check.due("no rooms, no set", none.sooner(0), NONE);
@@ -878,7 +881,7 @@ public final class PromiseTest {
         put(x, 0, 3, 1, 1, 1);
         Check.thrown("within two", BOUNDS, () -> x.pour(0));
         long[][] wrong = {{1, 1, 2, 0}, {1, 1, -2, 0}, {1, 1, 0, 1 << 24}, {1, 1, 0, -1}, {1, 1, 0, 1L << 32},
-            {1, 1, 1L << 32, 1}, {1, 1, -1, -1}, {0, 1, 0, 1, 0, 1, 0, 1, 0, 1}};
+            {1, 1, 1L << 32, 1}, {1, 1, -1, -1}, {2, 1}, {0, -1, 0, 1}, {0, 1, 0, 1, 0, 1, 0, 1, 0, 1}};
         for (long[] w : wrong) {
             put(x, 0, 3, w);
             Check.thrown("pour", ARGUMENT, () -> x.pour(0));
