@@ -34,7 +34,7 @@ public final class ModelTest {
         for (int i = 0; i < 60; i++) {
             large(draw, i);
         }
-        Check.due("lamps were carried often enough", moves > 300, true);
+        Check.due("lamps were carried often enough", moves > 200, true);
         grids();
         rules(draw);
         Check.end("ModelTest");
