@@ -8,8 +8,14 @@ final class Check {
 
     private static int made = 0;
     private static int wrong = 0;
+    private static String words = "";
 
     private Check() {
+    }
+
+    /** What follows is for these words of the document; SentenceTest looks whether all its words have a test. */
+    static void sentence(String quoted) {
+        words = "[" + quoted + "] ";
     }
 
     static void due(String call, long got, long want) {
@@ -17,7 +23,17 @@ final class Check {
         if (got != want) {
             wrong++;
             if (wrong <= 40) {
-                System.out.println(call + " answered " + got + ", due is " + want);
+                System.out.println(words + call + " answered " + got + ", due is " + want);
+            }
+        }
+    }
+
+    static void due(String call, String got, String want) {
+        made++;
+        if (!got.equals(want)) {
+            wrong++;
+            if (wrong <= 40) {
+                System.out.println(words + call + " is\n  " + got + "\n, due is\n  " + want);
             }
         }
     }
