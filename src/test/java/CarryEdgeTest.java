@@ -19,6 +19,7 @@ public final class CarryEdgeTest {
         carriedLight();
         carriedBoth();
         carriedOrder();
+        carriedAnew();
         carriedAnswers();
         carriedNever();
         carryRefused();
@@ -92,6 +93,8 @@ public final class CarryEdgeTest {
         Check.due("one in each", x.carry(2, 3, 3, 0), 0);
         Check.due("one in each", x.carry(2, 3, 3, 1), 1);
         Check.due("a lamp doesn't light its own room", x.carry(1, 1, 1, 0), 1);
+        Check.due("from the first room alone", x.carry(1, 2, 2, 0), 0);
+        Check.due("from the first room alone", x.carry(1, 2, 2, NONE), 0);
         Check.due("nor both", x.carry(1, 3, 3, 0), NONE);
     }
 
@@ -116,6 +119,33 @@ public final class CarryEdgeTest {
         LitNextDoor between = Check.built("rooms 4;pane 0 to 1 lets 1;pane 1 to 2 lets 1;pane 2 to 3 lets 1;want 2 least 1 from 0 to 0;"
             + "want 3 least 1 from 0 to 0;want 3 least 1 from 2 to 2;want 1 least 1 from 2 to 2;");
         places(between, 2, 0, 2, 1, 1, 2, 0, 2, 0, 2);
+    }
+
+    /** One object is asked for other hours, for another number of lamps and in another house in turn. */
+    private static void carriedAnew() {
+        LitNextDoor x = Check.built(ROW + "want 0 least 1 from 1 to 1;want 3 least 1 from 2 to 2;want 0 least 1 from 3 to 3;");
+        for (int i = 0; i < 2; i++) {
+            places(x, 1, 1, 2, 1, 1, 2);
+            places(x, 1, 1, 3, 2, 1, 2, 1);
+            places(x, 1, 2, 3, 1, 2, 1);
+            places(x, 1, 0, 3, 2, 1, 1, 2, 1);
+            places(x, 2, 0, 3, 0, 1, 2, 1, 2, 1, 2, 1, 2);
+            places(x, 2, 1, 3, 0, 1, 2, 1, 2, 1, 2);
+        }
+        x.image(0);
+        Check.house(x, "rooms 3;pane 0 to 1 lets 1;pane 1 to 2 lets 1;want 2 least 1 from 0 to 0;want 1 least 1 from 1 to 3;");
+        places(x, 2, 1, 3, 0, 0, 0, 0, 0, 0, 0);
+        places(x, 1, 0, 3, 1, 1, 0, 0, 0);
+        x.restore(0);
+        places(x, 1, 0, 3, 2, 1, 1, 2, 1);
+        x.house(0);
+        Check.due("no rooms", x.carry(1, 0, 3, NONE), NONE);
+        x.restore(0);
+        places(x, 1, 0, 3, 2, 1, 1, 2, 1);
+        // The last of sixteen rooms lights the first, the first the last but one.
+        Check.house(x, Probe.ring(16).replace(" both", "") + "want 0 least 1 from 0 to 0;want 15 least 1 from 1 to 1;want 1 least 1 from 2 to 2;");
+        places(x, 1, 0, 2, 3, 15, 14, 0);
+        places(x, 2, 0, 2, 1, 0, 15, 0, 14, 0, 14);
     }
 
     /** The sum, then place by place. */
@@ -251,6 +281,9 @@ public final class CarryEdgeTest {
         LitNextDoor four = Check.built("rooms 5;pane 0 to 1 lets 1;pane 0 to 2 lets 1;pane 0 to 3 lets 1;pane 0 to 4 lets 1;");
         fraction(four, 0, 92, 1);
         fraction(four, 1, 49, 2);
+        Check.house(four, "rooms 5;pane 0 to 1 lets 1;");
+        fraction(four, 0, 20, 1);
+        fraction(four, 4, 0, 1);
         LitNextDoor ten = Check.built(Probe.ring(10));
         for (int room = 0; room < 10; room++) {
             fraction(ten, room, 44, 1);

@@ -339,6 +339,14 @@ public final class LampEdgeTest {
         Check.due("it doesn't burn then", x.out(0, 1), 0);
         x.hang(2, 1, 1);
         Check.due("others are enough", x.out(0, 0), 0);
+        LitNextDoor ends = Check.built("rooms 16;pane 15 to 0 lets 100;pane 0 to 15 lets 100;pane 15 to 14 lets 100;lamp bright 1 oil 0;"
+            + "want 0 least 1;want 15 least 1;want 14 least 1;");
+        ends.hang(15, 0, 1 << 23);
+        ends.hang(0, 0, 1 << 23);
+        Check.due("the last room's lamp", ends.out(15, 23), 1 << 14 | 1);
+        Check.due("the first room's lamp", ends.out(0, 23), 1 << 15);
+        Check.due("a room without a lamp", ends.out(14, 23), 0);
+        Check.due("an hour ahead of it", ends.out(15, 22), 0);
         LitNextDoor bright = Check.built(THREE + "want 1 least 0 most 49;");
         bright.hang(0, 0, 1);
         Check.due("too bright now, right then", bright.out(0, 0), 0);

@@ -34,6 +34,9 @@ public final class ModelTest {
         for (int i = 0; i < 60; i++) {
             large(draw, i);
         }
+        for (int i = 0; i < 60; i++) {
+            oneObject(draw);
+        }
         Check.due("lamps were carried often enough", moves > 200, true);
         grids();
         rules(draw);
@@ -224,6 +227,25 @@ public final class ModelTest {
                 moves += carriedFor(x, m, n, to / 2, to) ? 1 : 0;
             }
             moves += carriedFor(x, m, 3 - n, 0, now) ? 1 : 0;
+        }
+    }
+
+    /** House by house on one object: nothing that was worked out for an earlier one may strike through. */
+    private static void oneObject(Random draw) {
+        LitNextDoor x = new LitNextDoor();
+        for (int i = 0; i < 5; i++) {
+            int rooms = 1 + draw.nextInt(6);
+            StringBuilder text = new StringBuilder();
+            Model m = Model.drawn(draw, rooms, draw.nextInt(3 * rooms), text);
+            Check.due("house of " + text, Check.house(x, text.toString()), m.lines);
+            told(x, m, text.toString());
+            hung(x, m, draw);
+            sets(x, m);
+            for (int n = 1; n <= 2; n++) {
+                carriedFor(x, m, n, 0, 5);
+            }
+            tenants(x, m, draw);
+            rounds(x, m);
         }
     }
 

@@ -10,6 +10,7 @@ public final class SetEdgeTest {
         + "pane 1 to 2 lets 1 both;pane 1 to 3 lets 1 both;pane 2 to 3 lets 1 both;";
     private static final String ROW = "rooms 4;pane 0 to 1 lets 1 both;pane 1 to 2 lets 1 both;pane 2 to 3 lets 1 both;";
     private static final String ONE_WAY = "rooms 4;pane 0 to 1 lets 1;pane 1 to 2 lets 1;pane 2 to 3 lets 1;pane 3 to 0 lets 1;";
+    private static final String HALVES = "rooms 4;pane 0 to 3 lets 50;pane 1 to 3 lets 50;pane 2 to 3 lets 100;lamp bright 10 oil 1;";
 
     private SetEdgeTest() {
     }
@@ -96,6 +97,10 @@ public final class SetEdgeTest {
         Check.due("all of 16 in a ring", Check.built(Probe.ring(16)).best(1), 65535);
         Check.due("one has but one", Check.built(ROW).best(1), NONE);
         Check.due("two panes of one room are one", Check.built("rooms 2;pane 0 to 1 lets 1 both;pane 0 to 1 lets 1 both;").best(1), NONE);
+        // 0 and the ring of 1 to 5 light each other, and each of the ring its neighbours: 0 lights all of the ring, but only once.
+        Check.due("one counts once", Check.built("rooms 6;pane 0 to 1 lets 1 both;pane 0 to 2 lets 1 both;pane 0 to 3 lets 1 both;pane 0 to 4 lets 1 both;"
+            + "pane 0 to 5 lets 1 both;pane 1 to 2 lets 1 both;pane 2 to 3 lets 1 both;pane 3 to 4 lets 1 both;pane 4 to 5 lets 1 both;"
+            + "pane 5 to 1 lets 1 both;").best(1), 15);
         Check.due("no rooms", new LitNextDoor().best(1), 0);
         Check.due("no pane", Check.built("rooms 2;").best(1), NONE);
     }
@@ -110,6 +115,8 @@ public final class SetEdgeTest {
         Check.due("who is next to it may not", Check.built(ROW + "hates 2 1;").best(2), NONE);
         // A pane from 0 to 1 only: 1 can't light 0, so that 0 may hate it.
         Check.due("against the pane", Check.built("rooms 3;pane 0 to 1 lets 1;pane 1 to 2 lets 1;pane 2 to 0 lets 1;hates 0 1;").best(2), 7);
+        Check.due("all of 16", Check.built(pairs(8) + "hates 0 15;hates 15 1;").best(2), 65535);
+        Check.due("the last of 16 hates who lights it", Check.built(pairs(8) + "hates 15 14;").best(2), NONE);
         Check.due("no rooms", new LitNextDoor().best(2), 0);
     }
 
@@ -123,6 +130,12 @@ public final class SetEdgeTest {
         // 0 is next to 1 and to 2; to 0 none is.
         Check.due("one of 1 and 2", Check.built("rooms 3;pane 0 to 1 lets 1;pane 0 to 2 lets 1;").best(3), 3);
         // 0 alone is less as bits, but shares with 1 and with 2, which are two.
+        LitNextDoor again = Check.built(FULL);
+        Check.due("any two share one", again.best(3), 1);
+        Check.house(again, "rooms 4;");
+        Check.due("in another house none do", again.best(3), 15);
+        Check.house(again, FULL);
+        Check.due("and again any two", again.best(3), 1);
         Check.due("more are better", Check.built("rooms 5;pane 3 to 0 lets 1;pane 4 to 0 lets 1;pane 3 to 1 lets 1;pane 4 to 2 lets 1;").best(3), 30);
         Check.sentence("The set of ROOMS that is FEWEST (what 0), TWICE (1), APART (2), LONE (3); NONE: there is none (LONE: never).");
         LitNextDoor unlit = Check.built("rooms 3;pane 0 to 1 lets 1;");
@@ -187,6 +200,8 @@ public final class SetEdgeTest {
         Check.due("too bright for one", Check.built(three + "want 4 least 9;want 5 least 0 most 8;").bright(0, 0), 1);
         Check.due("too bright for both", Check.built(three + "want 4 least 9;want 5 least 9;want 5 least 0 most 8;").bright(0, 0), NONE);
         Check.due("both of them", Check.built(three + "want 4 least 18;want 5 least 10;").bright(0, 0), 7);
+        // 0 with 1 gives as much as 2 alone; all three would be too bright.
+        Check.due("one for two", Check.built(HALVES + "want 3 least 10 most 10;").bright(0, 0), 4);
         StringBuilder all = new StringBuilder(pairs(8)).append("lamp bright 100 oil 99;");
         for (int room = 0; room < 16; room++) {
             all.append("want ").append(room).append(" least 1;");
@@ -301,6 +316,18 @@ public final class SetEdgeTest {
         mixedIs(none, 0, 1, NONE, NONE, 0);
         LitNextDoor both = Check.built(two + "lamp bright 40 oil 1;lamp bright 60 oil 1;want 1 least 100 most 100;");
         mixedIs(both, 2, 2, 0, NONE, 1);
+        LitNextDoor half = Check.built(HALVES + "want 3 least 10 most 10;");
+        mixedIs(half, 1, 1, NONE, NONE, 0);
+        // Without room 0 it takes three lamps, with it two: for no oil at all, or for as much.
+        String three = "rooms 7;pane 0 to 4 lets 100;pane 0 to 5 lets 100;pane 1 to 4 lets 50;pane 2 to 5 lets 50;pane 3 to 6 lets 50;";
+        String wants = "want 4 least 5;want 5 least 5;want 6 least 5;";
+        LitNextDoor free = Check.built(three + "lamp bright 10 oil 0;" + wants);
+        mixedIs(free, 0, 2, 0, NONE, NONE);
+        Check.due("and the last", free.mixed(0, 3), 0);
+        // In room 0 it takes the brighter kind, for as much oil as two of the other.
+        LitNextDoor same = Check.built(three.replace("lets 100", "lets 25") + "lamp bright 10 oil 1;lamp bright 20 oil 2;" + wants);
+        mixedIs(same, 3, 2, 1, NONE, NONE);
+        Check.due("and the last", same.mixed(0, 3), 0);
         LitNextDoor nothing = Check.built(two + "lamp bright 1 oil 0;");
         mixedIs(nothing, 0, 0, NONE, NONE, NONE);
         LitNextDoor dimmest = Check.built(two + "lamp bright 3 oil 1;lamp bright 2 oil 1;want 1 least 2 most 2;");
@@ -322,6 +349,10 @@ public final class SetEdgeTest {
         LitNextDoor x = Check.built("rooms 8;pane 0 to 1 lets 100;lamp bright 5 oil 99;want 1 least 6 from 0 to 0;want 1 least 5 from 23 to 23;");
         for (int what = -2; what < 8; what++) {
             Check.due("it can't be", x.mixed(0, what), NONE);
+        }
+        LitNextDoor against = Check.built("rooms 2;pane 0 to 1 lets 100;lamp bright 5 oil 9;want 1 least 5;want 1 least 0 most 4;");
+        for (int what = -2; what < 2; what++) {
+            Check.due("wants that never go together", against.mixed(0, what), NONE);
         }
         Check.due("oil", x.mixed(23, NONE), 99);
         Check.due("lamps", x.mixed(23, -2), 1);
@@ -421,6 +452,9 @@ public final class SetEdgeTest {
         Check.due("one way", x.hole(1, 4), 1);
         Check.due("both ways: 0 and 2 light all", x.hole(2, 4), 2);
         Check.due("they aren't made", x.best(0), 15);
+        Check.due("both ways, told from the other end", Check.built(ONE_WAY + "hole 2 to 0 lets 1 costs 0 both;").hole(0, 4), 2);
+        Check.due("both ways of 16", Check.built(pairs(8).replace("pane 14 to 15 lets 1 both;", "") + "hole 15 to 14 lets 1 costs 0 both;").hole(0, 4), 100);
+        Check.due("one way of 16", Check.built(pairs(8).replace("pane 14 to 15 lets 1 both;", "") + "hole 15 to 14 lets 1 costs 0;").hole(0, 4), 0);
         LitNextDoor none = Check.built("rooms 3;pane 0 to 1 lets 1;pane 0 to 2 lets 1;hole 1 to 0 lets 1 costs 0;hole 2 to 1 lets 1 costs 0;");
         Check.due("none now, and one then", none.hole(0, 4), 100);
         Check.due("none then", none.hole(1, 4), 0);
@@ -437,6 +471,9 @@ public final class SetEdgeTest {
         Check.due("saves most, though dearest", Check.built(ONE_WAY + one + "0;" + one + "99 both;" + one + "0;").which(), 1);
         Check.due("costs least", Check.built(ONE_WAY + one + "2;" + one + "1;" + one + "2;").which(), 1);
         Check.due("the last costs least", Check.built(ONE_WAY + one + "2;" + one + "1;" + one + "0;").which(), 2);
+        Check.due("the only one", Check.built(ONE_WAY + one + "99;").which(), 0);
+        Check.due("the first of like ones", Check.built(ONE_WAY + one + "5;" + one + "5;").which(), 0);
+        Check.due("the first costs least", Check.built(ONE_WAY + one + "0;" + one + "1;").which(), 0);
         Check.due("the first of like ones", Check.built(ONE_WAY + "hole 0 to 1 lets 1 costs 0;" + one + "5;" + one + "5;").which(), 1);
         Check.due("the eighth", Check.built(ONE_WAY + "hole 0 to 1 lets 1 costs 0;".repeat(7) + one + "99;").which(), 7);
         Check.due("100", Check.built("rooms 2;pane 0 to 1 lets 1;hole 0 to 1 lets 1 costs 0;hole 1 to 0 lets 1 costs 99;").which(), 1);

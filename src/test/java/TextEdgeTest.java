@@ -26,6 +26,7 @@ public final class TextEdgeTest {
         forms();
         tokensLeftOut();
         tokensTwice();
+        wordsOtherwise();
         rooms();
         roomNumbers();
         panes();
@@ -309,6 +310,27 @@ public final class TextEdgeTest {
                 }
                 // A second number behind hates is its other room: the same one can't be that.
                 refused(form.startsWith("hates") && i == 1 ? 3 : 2, marked.toString());
+            }
+        }
+    }
+
+    /** A word with another letter first or last, one letter fewer or more, is another word. */
+    private static void wordsOtherwise() {
+        for (String form : FORMS) {
+            String[] tokens = form.split(" ");
+            for (int i = 0; i < tokens.length; i++) {
+                String word = tokens[i];
+                if (word.matches("[a-z]+")) {
+                    String[] others = {"x" + word.substring(1), word.substring(0, word.length() - 1) + "x",
+                        word.substring(0, word.length() - 1), word + "x", "x" + word};
+                    for (String other : others) {
+                        StringBuilder marked = new StringBuilder(form.startsWith("rooms") ? "" : "rooms 3;");
+                        for (int j = 0; j < tokens.length; j++) {
+                            marked.append(j == i ? "^" + other : tokens[j]).append(' ');
+                        }
+                        refused(2, marked.toString());
+                    }
+                }
             }
         }
     }
