@@ -21,15 +21,32 @@ public final class RoomTest {
     }
 
     public static void main(String[] args) {
-        if (!COUNTER.isThreadAllocatedMemorySupported()) {
-            System.out.println("RoomTest: bytes aren't counted on this machine");
-            return;
+        lastCall();
+        if (COUNTER.isThreadAllocatedMemorySupported()) {
+            made("new objects, each", 100000, 1, (x, i) -> new LitNextDoor());
+            asking();
+            searching();
+            changing();
         }
-        made("new objects, each", 100000, 1, (x, i) -> new LitNextDoor());
-        asking();
-        searching();
-        changing();
         Check.end("RoomTest");
+    }
+
+    private static void lastCall() {
+        Check.sentence("An object is used for at most 512 calls after it has been made; what later calls answer is free.");
+        int feeds = (FEW.length() + 19) / 20;
+        for (int last = 0; last < 5; last++) {
+            LitNextDoor x = Check.built(FEW);
+            for (int calls = feeds + 1; calls < CALLS - 1; calls++) {
+                x.hang(calls % 8, calls % 2, calls);
+            }
+            switch (last) {
+                case 0 -> Check.due("the 512th call, of", x.of(510 % 8, 1), 510);
+                case 1 -> Check.due("the 512th call, best", x.best(0), 1 << 1 | 1 << 2 | 1 << 5 | 1 << 6);
+                case 2 -> Check.due("the 512th call, feed", x.feed(0, 0, 0, 0, 0), 20);
+                case 3 -> Check.due("the 512th call, count", x.count(7), 8);
+                default -> Check.thrown("the 512th call, restore", IllegalStateException.class, () -> Probe.restored(x, 0));
+            }
+        }
     }
 
     /** So many bytes a call, and so many once, are the most that is borne. */

@@ -25,7 +25,7 @@ public final class SentenceTest {
         }
         String document = Files.readString(DOCUMENT);
         Map<String, String> parts = parts(document);
-        Check.due("the document's parts", parts.size(), 49);
+        Check.due("the document's parts", parts.size(), 50);
         List<String> quotes = quotes();
         for (String quote : quotes) {
             Check.due("the document has <" + quote + ">", foundIn(parts, quote), true);
@@ -39,6 +39,10 @@ public final class SentenceTest {
     /** The terms, and each promise without its heading and the line that it is declared by. */
     private static Map<String, String> parts(String document) {
         Map<String, String> parts = new TreeMap<>();
+        Matcher use = Pattern.compile("\\n(An object is used [^\\n]*)\\n").matcher(document);
+        if (use.find()) {
+            parts.put("What it is", plain(use.group(1)));
+        }
         int terms = document.indexOf("## Terms");
         int calls = document.indexOf("Ahead of the calls");
         String told = document.substring(terms + "## Terms".length(), calls);
