@@ -1527,6 +1527,9 @@ public final class LitNextDoor {
         int bestOil = 0;
         int bestLamps = 0;
         final int[] bestKinds = new int[MIXED_ROOMS];
+        // the house, and its wants of an hour, that the best lamps are for
+        private House searched = null;
+        private int searchedWants = 0;
         private final Balance balance = new Balance();
         private int leastOil = 0;
         private final int[] chosen = new int[MIXED_ROOMS];
@@ -1535,18 +1538,28 @@ public final class LitNextDoor {
         // what lamps from the i-th room on give to each room at most
         private final int[] together = new int[(MIXED_ROOMS + 1) * ROOMS];
 
+        /** Can it be? The best lamps are kept, as their kinds are mostly asked for room by room. */
         boolean find(House house, int hour) {
+            int wants = house.wantsAt(hour);
+            if (searched != house || searchedWants != wants) {
+                searched = house;
+                searchedWants = wants;
+                search(house, hour);
+            }
+            return bestOil < UNBOUNDED;
+        }
+
+        private void search(House house, int hour) {
             bestOil = UNBOUNDED;
             bestLamps = 0;
             if (house.rooms > MIXED_ROOMS || !balance.begin(house, hour)) {
-                return false;
+                return;
             }
             lay(house);
             int lack = balance.lacking();
             if (balance.enoughWith(together, 0, lack)) {
                 seek(this, house, 0, 0, 0, lack);
             }
-            return bestOil < UNBOUNDED;
         }
 
         private void lay(House house) {
@@ -1833,6 +1846,10 @@ public final class LitNextDoor {
         private final int[] ahead;
         private final int[] queue;
         private int queued = 0;
+        // the house and the first room of the round that the path is of
+        private House walked = null;
+        private int walkedFrom = NONE;
+        private int walkedSteps = NONE;
 
         /** For so many rooms or fewer. */
         Rounds(int many) {
@@ -1841,8 +1858,18 @@ public final class LitNextDoor {
             queue = new int[rooms << rooms];
         }
 
-        /** States come in the order of the first ways to them, so that the goal is come to by the first of all. */
+        /** The round is kept, as its rooms are mostly asked for one by one. */
         int stepsFrom(House house, int start) {
+            if (walked != house || walkedFrom != start) {
+                walked = house;
+                walkedFrom = start;
+                walkedSteps = search(house, start);
+            }
+            return walkedSteps;
+        }
+
+        // States come in the order of the first ways to them, so that the goal is come to by the first of all.
+        private int search(House house, int start) {
             if (!canBe(house, start)) {
                 return NONE;
             }
