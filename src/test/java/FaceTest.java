@@ -1,7 +1,10 @@
+import java.io.IOException;
 import java.lang.reflect.InvocationTargetException;
 import java.lang.reflect.Member;
 import java.lang.reflect.Method;
 import java.lang.reflect.Modifier;
+import java.nio.file.Files;
+import java.nio.file.Path;
 import java.util.ArrayList;
 import java.util.Arrays;
 import java.util.Comparator;
@@ -15,13 +18,15 @@ public final class FaceTest {
     private static final String FACE = "feed house fault pane kind next hated never hang of light by dark judge out spare "
         + "angry oil lights best gap bright always ever barred day mixed grid hole which walk carry cost owed upper lower "
         + "sooner round rule look night tray write pour image restore count";
+    private static final Path DOCUMENT = Path.of("../shared/DOC.md");
     private static final int[] ODD = {Integer.MIN_VALUE, Integer.MAX_VALUE, -1000000, 1000000, 65536, 16777215, 16777216, 800};
 
     private FaceTest() {
     }
 
-    public static void main(String[] args) throws ReflectiveOperationException {
+    public static void main(String[] args) throws ReflectiveOperationException, IOException {
         face();
+        declared();
         names();
         Random draw = new Random(512);
         for (int i = 0; i < 400; i++) {
@@ -50,6 +55,28 @@ public final class FaceTest {
         }
         Check.due("fields and constructors that can be seen", seen, 2);
         Check.due("the class is final", Modifier.isFinal(LitNextDoor.class.getModifiers()), true);
+    }
+
+    /** Each line of the document's face stands in the program: types, parameters and what is thrown, in its order. */
+    private static void declared() throws IOException {
+        if (!Files.exists(DOCUMENT)) {
+            System.out.println("FaceTest: there is no document to look at");
+            return;
+        }
+        String document = Files.readString(DOCUMENT);
+        String program = Files.readString(Path.of("src/main/java/LitNextDoor.java")).replaceAll("\\s+", " ");
+        int from = document.indexOf("```java", document.indexOf("## The public face"));
+        int seen = 0;
+        for (String line : document.substring(from, document.indexOf("```", from + 3)).split("\n")) {
+            String told = line.trim();
+            if (told.startsWith("public ")) {
+                String due = told.contains("(") ? told.replace(";", " {") : told;
+                Check.due("the program has " + due, program.contains(due), true);
+                seen++;
+            }
+        }
+        // the class, its constant, its constructor and its methods
+        Check.due("lines of the document's face", seen, 3 + FACE.split(" ").length);
     }
 
     private static void names() {
